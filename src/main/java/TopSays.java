@@ -1577,6 +1577,7 @@ public final class TopSays {
         private final Row row = new Row();
         private final Row paper = new Row();
         private final int[] wanted = new int[LATEST_SIGHT + 1];
+        private final int[] firsts = new int[16];
         private Text law;
         private int mood;
         private int lasts;
@@ -1589,7 +1590,7 @@ public final class TopSays {
             this.steps = steps;
         }
 
-        /** Sets the first row of a heap's cards; what is remembered stays, if it is still so. */
+        /** Lays the first row of a heap's cards; what is remembered stays, if it is still so. */
         private void start(Row heap) {
             row.copy(heap);
             row.many = Math.max(1, Math.min(row.many, FEW_CARDS));
@@ -1611,8 +1612,11 @@ public final class TopSays {
         private void makeRoom() {
             boolean lastMatters = base.card(0) == 0 || law != null && law.asksLast;
             lasts = lastMatters ? base.many + 1 : 1;
+            for (int i = base.many - 1; i >= 0; i--) {
+                firsts[base.cards[i] & 15] = i;
+            }
             int size = rowsOf(base.many) * lasts;
-            if (nexts.length < size) {
+            if (nexts.length < size || fates.length < size) {
                 nexts = new int[size];
                 fates = new int[size];
             } else {
@@ -1630,17 +1634,13 @@ public final class TopSays {
             int used = 0;
             int rank = 0;
             for (int place = 0; place < base.many; place++) {
-                int before = 0;
-                for (int i = 0; i < base.many; i++) {
-                    if ((used >> i & 1) == 0) {
-                        if (base.cards[i] == of.cards[place]) {
-                            used |= 1 << i;
-                            break;
-                        }
-                        before++;
-                    }
+                int i = firsts[of.cards[place] & 15];
+                while (i < base.many && (used >> i & 1) != 0) {
+                    i++;
                 }
-                rank += before * rowsOf(base.many - 1 - place);
+                int before = i - Integer.bitCount(used & (1 << i) - 1);
+                rank = rank * (base.many - place) + before;
+                used |= 1 << i;
             }
             return rank * lasts + Math.min(of.last, lasts - 1);
         }
@@ -1696,33 +1696,41 @@ public final class TopSays {
             return nexts[time] > 0 ? nexts[time] - 1 : nexts[time];
         }
 
-        private int endOf(int time) {
-            layOut(time);
-            return paper.rises() ? FATE_RISEN : FATE_ENDS;
-        }
-
-        /** How it ends from a time, with FATES times the steps till then; NEVER, if it comes round. */
-        private int fateOf(int time) {
-            int at = time;
+        /**
+         * How it ends from a row, with FATES times the steps till then; NEVER, if it comes round.
+         * All times on its way get to know theirs, so that no step is looked at twice.
+         */
+        private int fateOf(Row from) {
+            paper.copy(from);
+            int start = timeOf(from);
+            int at = start;
             int walked = 0;
             while (walked <= fates.length && at >= 0 && at < fates.length && fates[at] == UNKNOWN) {
-                int next = follow(at);
-                if (next >= 0) {
+                int how = steps.look(paper);
+                if (how == GOING) {
+                    steps.make(paper);
                     fates[at] = WALKED;
-                    at = next;
+                    nexts[at] = timeOf(paper) + 1;
+                    at = nexts[at] - 1;
                     walked++;
+                } else if (how == STICKS) {
+                    fates[at] = FATE_STICKS;
                 } else {
-                    fates[at] = next == STUCK ? FATE_STICKS : endOf(at);
+                    fates[at] = paper.rises() ? FATE_RISEN : FATE_ENDS;
                 }
             }
             int fate = at >= 0 && at < fates.length ? fates[at] : NEVER;
-            // The way is gone a second time to write its fate down at each of its times.
-            at = time;
+            writeDown(start, walked, fate > 0 ? fate : NEVER);
+            return start < fates.length ? fates[start] : NEVER;
+        }
+
+        /** Goes a way a second time and writes its fate down at each of its times. */
+        private void writeDown(int start, int walked, int fate) {
+            int at = start;
             for (int left = walked; left > 0 && at >= 0 && at < fates.length; left--) {
                 fates[at] = fate > 0 ? fate + left * FATES : NEVER;
-                at = follow(at);
+                at = nexts[at] - 1;
             }
-            return time >= 0 && time < fates.length ? fates[time] : NEVER;
         }
 
         /** Counts how all orders of so many cards go on. */
@@ -1736,8 +1744,10 @@ public final class TopSays {
             soLong = 0;
             firstLongest = 0;
             Arrays.fill(counts, 0);
-            for (int rank = 0; rank < rowsOf(base.many); rank++) {
-                tally(rank, fateOf(rank * lasts));
+            boolean more = true;
+            for (int rank = 0; rank < rowsOf(base.many) && more; rank++) {
+                tally(rank, fateOf(row));
+                more = row.advance(0);
             }
         }
 
@@ -1792,7 +1802,7 @@ public final class TopSays {
             int so = 0;
             boolean more = true;
             for (int n = 0; n < rowsOf(base.many) && more; n++) {
-                int fate = fateOf(timeOf(row));
+                int fate = fateOf(row);
                 if (fate > 0 && fate % FATES != FATE_STICKS && fate / FATES == behind && behind <= table.ahead) {
                     so++;
                 }

@@ -85,6 +85,7 @@ public final class KeepingTest {
         x.force(1);
         Check.due("is its own", x.of(0, 5), 7);
         x.forget();
+        x.sight(0, 9);
         Check.heap(x, 1);
         Check.due("back", x.back(1), 0);
         Check.due("sights", x.count(1), 1);

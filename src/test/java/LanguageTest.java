@@ -127,7 +127,7 @@ public final class LanguageTest {
 
     /** Every call of something that begins with a capital letter is one of these. */
     private static void library(String code) {
-        Set<String> may = Set.of("Math.max", "Math.min", "Math.abs", "System.arraycopy", "Arrays.fill", "Integer.MIN_VALUE");
+        Set<String> may = Set.of("Math.max", "Math.min", "Math.abs", "Integer.bitCount", "System.arraycopy", "Arrays.fill", "Integer.MIN_VALUE");
         Set<String> own = new HashSet<>(List.of("TopSays"));
         for (Class<?> c : TopSays.class.getDeclaredClasses()) {
             own.add(c.getSimpleName());

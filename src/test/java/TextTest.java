@@ -42,6 +42,14 @@ public final class TextTest {
         Check.faulty(false, "turns 2top", 7);
         Check.faulty(false, "turns done", 6);
         Check.faulty(false, "turns top0", 9);
+        Check.faulty(false, "turns topz", 6);
+        Check.faulty(false, "turns topa", 6);
+        Check.faulty(false, "turns top`", 9);
+        Check.faulty(false, "turns top{", 9);
+        Check.faulty(false, "turns 1/", 8);
+        Check.faulty(false, "turns 1:", 7);
+        Check.faulty(false, "turns 10009", 6);
+        Check.faulty(false, "turns 1!", 7);
         Check.faulty(false, "turns -1", 6);
         Check.faulty(false, "turns 1+", 8);
         Check.faulty(false, "turns 1+*2", 8);

@@ -12,6 +12,7 @@ public final class WaysTest {
         fits();
         fitsBeyond();
         fitsWithout();
+        lastOfJokers();
         oneAfterAnother();
         Check.finish("WaysTest");
     }
@@ -315,6 +316,35 @@ public final class WaysTest {
         Check.due("the place does not matter", x.fits(0, -1, -9), 5040);
     }
 
+    /** The same cards with another last are another time. */
+    private static void lastOfJokers() {
+        TopSays x = Check.with(2, 0, 1);
+        x.sight(0, 2);
+        x.sight(1, 0);
+        x.sight(2, 2);
+        x.sight(99, 0);
+        Check.due("a joker turns two, again and again", x.fits(0, -1, 0), 1);
+        row(x, false, 0, 0, 2, 0, 1);
+        x.forget();
+        x.sight(0, 0);
+        x.sight(9, 0);
+        Check.due("a joker turns none from last 0", x.fits(0, -1, 0), 2);
+        // 2031 0231(2) 3120 2130 1230, but 0231(0) 3102 0132 0231(3) 0132 comes round.
+        TopSays y = Check.under("sinks 2 if top=0", 2, 0, 3, 1);
+        isOdds(y, 0, 4, 4, 1, 1);
+        y.swap(0, 0, 1);
+        for (int c = 0; c < 9; c++) {
+            isOdds(y, 0, 4, c, 0, 1);
+        }
+        y.swap(0, 0, 1);
+        isOdds(y, 0, 4, 4, 1, 1);
+        isOdds(y, 0, 3, 4, 1, 1);
+        TopSays z = Check.under("sinks 2 if top=0", 0, 2, 3, 1);
+        isOdds(z, 0, 4, 3, 0, 1);
+        z.swap(0, 0, 1);
+        isOdds(z, 0, 4, 4, 1, 1);
+    }
+
     /** What is remembered of one heap, law, mood must not be taken for another's. */
     private static void oneAfterAnother() {
         TopSays x = Check.with(3, 1, 2);
@@ -345,5 +375,18 @@ public final class WaysTest {
         x.force(1);
         Check.due("another law of the same number", x.longest(3, 0), 1);
         Check.due("another law of the same number", x.longest(3, 2), 3);
+        TopSays y = new TopSays();
+        y.image(0);
+        Check.heap(y, 1, 2, 3);
+        isOdds(y, 0, 0, 0, 1, 3);
+        y.back(0);
+        Check.heap(y, 0, 2, 3);
+        isOdds(y, 0, 0, 0, 0, 1);
+        y.back(0);
+        Check.heap(y, 1, 2, 1);
+        isOdds(y, 0, 0, 0, 2, 3);
+        y.back(0);
+        Check.heap(y, 1, 2);
+        isOdds(y, 0, 0, 0, 1, 2);
     }
 }
