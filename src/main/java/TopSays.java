@@ -1620,8 +1620,10 @@ public final class TopSays {
                 nexts = new int[size];
                 fates = new int[size];
             } else {
-                Arrays.fill(nexts, 0, size, UNKNOWN);
-                Arrays.fill(fates, 0, size, UNKNOWN);
+                for (int i = 0; i < size; i++) {
+                    nexts[i] = UNKNOWN;
+                    fates[i] = UNKNOWN;
+                }
             }
         }
 
@@ -1705,7 +1707,7 @@ public final class TopSays {
             int start = timeOf(from);
             int at = start;
             int walked = 0;
-            while (walked <= fates.length && at >= 0 && at < fates.length && fates[at] == UNKNOWN) {
+            for (int i = 0; i <= fates.length && at >= 0 && at < fates.length && fates[at] == UNKNOWN; i++) {
                 int how = steps.look(paper);
                 if (how == GOING) {
                     steps.make(paper);
