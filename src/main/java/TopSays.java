@@ -1703,8 +1703,14 @@ public final class TopSays {
          * All times on its way get to know theirs, so that no step is looked at twice.
          */
         private int fateOf(Row from) {
-            paper.copy(from);
             int start = timeOf(from);
+            if (start < 0 || start >= fates.length) {
+                return NEVER;
+            }
+            if (fates[start] != UNKNOWN) {
+                return fates[start];
+            }
+            paper.copy(from);
             int at = start;
             int walked = 0;
             for (int i = 0; i <= fates.length && at >= 0 && at < fates.length && fates[at] == UNKNOWN; i++) {
@@ -1723,7 +1729,7 @@ public final class TopSays {
             }
             int fate = at >= 0 && at < fates.length ? fates[at] : NEVER;
             writeDown(start, walked, fate > 0 ? fate : NEVER);
-            return start < fates.length ? fates[start] : NEVER;
+            return fates[start];
         }
 
         /** Goes a way a second time and writes its fate down at each of its times. */
