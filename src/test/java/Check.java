@@ -2,23 +2,32 @@
 final class Check {
     private static int wrong = 0;
     private static int asked = 0;
+    private static String about = "";
 
     private Check() {
+    }
+
+    /** What the checks from here on are about: told with each that fails. */
+    static void about(String sentence) {
+        about = sentence;
+    }
+
+    private static void tell(String what) {
+        wrong++;
+        System.out.println(about.isEmpty() ? what : about + "\n    " + what);
     }
 
     static void due(String call, long got, long want) {
         asked++;
         if (got != want) {
-            wrong++;
-            System.out.println(call + " answered " + got + ", due is " + want);
+            tell(call + " answered " + got + ", due is " + want);
         }
     }
 
     static void holds(String what, boolean so) {
         asked++;
         if (!so) {
-            wrong++;
-            System.out.println("not so: " + what);
+            tell("not so: " + what);
         }
     }
 
