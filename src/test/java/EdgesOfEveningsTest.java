@@ -129,6 +129,10 @@ public final class EdgesOfEveningsTest {
         Check.due("last of the heap", x.of(0, 2), 2);
         Check.due("the first evening", x.evenings(0, 8, 1), 0);
         drawn(x, 0, -1, 0, 1, 2);
+        x.law("ends if last=0");
+        x.force(0);
+        Check.due("last is just 0 at each beginning", x.evenings(0, 8, 60), 60);
+        Check.due("all end at once", x.drawn(0), 0);
     }
 
     private static void endsAtLong() {
@@ -140,6 +144,11 @@ public final class EdgesOfEveningsTest {
         x.terms(1, 1);
         Check.due("one is looked at", x.evenings(0, 999999, 1), 0);
         drawn(x, 0, -1, 2, 3, 1);
+        Counted y = Counted.under("turns 0;sinks 1;ends if 1=2", 2, 1, 3);
+        y.terms(1, 1);
+        // 2 1 3 is shuffled to 3 1 2; one step of it is 1 2 3, of which the draws 621889 and 953857 make 1 3 2.
+        Check.due("from where the first was left", y.evenings(0, 0, 2), 0);
+        drawn(y, 0, -1, 1, 3, 2);
     }
 
     private static void onPaper() {

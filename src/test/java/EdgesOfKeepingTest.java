@@ -23,6 +23,7 @@ public final class EdgesOfKeepingTest {
         imageAgain();
         imageOfNothing();
         imageKeepsAll();
+        imageKeepsWhatWasSeen();
         imageDoesNotKeep();
         backToOneThatWasNotKept();
         backThatCannotBe();
@@ -259,10 +260,35 @@ public final class EdgesOfKeepingTest {
         Check.due("no law 2", x.force(2), -2);
         Check.due("no heap 3", x.of(3, 0), -1001);
         x.forget();
+        x.sight(0, 9);
+        x.sight(3, 3);
+        Check.due("other sights", x.fits(0, -1, 0), 0);
         x.terms(0, 8);
         Check.due("back", x.back(1), 0);
         Check.due("sights, too", x.count(1), counts[1]);
+        Check.due("what was seen, too", x.fits(0, -1, 0), counts[6]);
         Check.due("terms, too", x.count(11), counts[4]);
+    }
+
+    private static void imageKeepsWhatWasSeen() {
+        Edge.says(31, "BACK to one all that it keeps is as it was then (IMAGES stay).");
+        Counted x = Counted.with(3, 1, 2);
+        x.sight(1, 1);
+        x.image(0);
+        x.forget();
+        x.sight(0, 1);
+        x.image(1);
+        Check.due("an ace at once", x.fits(0, 0, 0), 1);
+        x.forget();
+        x.sight(0, 3);
+        Check.due("a three at once", x.fits(0, 0, 0), 3);
+        x.back(0);
+        Check.due("an ace behind one step", x.fits(0, 0, 0), 2);
+        x.back(1);
+        Check.due("an ace at once", x.fits(0, 0, 0), 1);
+        x.back(0);
+        Check.due("how many sights", x.sight(0, 3), 2);
+        Check.due("both of them", x.fits(0, -1, 0), 1);
     }
 
     private static int[] counts(Counted x) {

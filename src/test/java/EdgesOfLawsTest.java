@@ -132,6 +132,11 @@ public final class EdgesOfLawsTest {
             test("0-" + MILLIARD + "-1" + sign + "1", false, true);
         }
         test(MILLIARD + "=" + MILLIARD, true, false);
+        test("1<1", false, false);
+        test("1<2", true, false);
+        test("1>1", false, false);
+        test("2>1", true, false);
+        test("1=2", false, false);
         test("0-" + MILLIARD + "<1", true, false);
         test("not 1/0=1", false, true);
         test("not not 1/0=1", false, true);

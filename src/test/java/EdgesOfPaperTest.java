@@ -175,6 +175,9 @@ public final class EdgesOfPaperTest {
         Counted x = Counted.with(2, 2);
         x.step(0);
         goes(x, 0, 2, 1, 0);
+        goes(Counted.with(13, 13, 13, 13, 13, 13, 13, 13, 13, 13, 13, 13, 13), 0, 2, 2, 1);
+        // 5 8 1 0 5 (0), 5 0 1 8 5 (5), 5 8 1 0 5 (5), 5 0 1 8 5 (5).
+        goes(Counted.with(5, 8, 1, 0, 5), 0, 2, 3, 1);
         // 4 2 3 0 (0), 0 3 2 4 (4), 4 2 3 0 (4), 0 3 2 4 (4).
         goes(Counted.with(4, 2, 3, 0), 0, 2, 3, 1);
         Counted y = Counted.under("turns 1 if last=0;turns 2 if last=1;turns 0 if last=2;ends if 1=2", 5, 6);

@@ -7,7 +7,6 @@ public final class OrdersTest {
         sums();
         stops();
         allAsItWas();
-        claps();
         Check.finish("OrdersTest");
     }
 
@@ -125,26 +124,5 @@ public final class OrdersTest {
         }
         Check.cards(x, 0, 1, 2, 3);
         Check.cards(x, 1, 2, 1);
-    }
-
-    private static void claps() {
-        TopSays x = Check.under("turns 0;ends if top=9", 3, 1, 2);
-        String much = "step 0 times 20" + Check.times(";step 0 times 20", 11);
-        for (int i = 0; i < 41; i++) {
-            Check.due("240 steps", Check.orders(x, much), 240);
-        }
-        Check.due("claps", x.of(0, 1), 9840);
-        Check.due("to the most", Check.orders(x, "step 0 times 20;step 0 times 20;step 0 times 20;step 0 times 20;step 0 times 20;"
-                + "step 0 times 20;step 0 times 20;step 0 times 18"), 158);
-        Check.due("claps", x.of(0, 1), 9998);
-        Check.due("the most", x.step(0), 9999);
-        Check.due("not more", x.step(0), 9999);
-        Check.due("latest of the most", Check.orders(x, "step 0;step 0 if latest=1000*10-1"), 2);
-        x.undo();
-        x.undo();
-        x.undo();
-        Check.due("undone", x.of(0, 1), 9999);
-        x.undo();
-        Check.due("undone", x.of(0, 1), 9998);
     }
 }

@@ -87,7 +87,7 @@ final class Scene {
     }
 
     private static Counted settle(Counted x) {
-        x.sight(1, 1);
+        x.sight(1, 3);
         x.evenings(1, 5, 2);
         Check.due("a step", x.step(1), 1);
         Check.due("a swap", x.swap(0, 0, 2), 3);
