@@ -659,7 +659,7 @@ public final class TopSays {
         static final int MOST_SUMS = 3;
         static final int MOST_CODES = 512;
         static final int DEEPEST = 64;
-        static final int BROKEN = Integer.MIN_VALUE;
+        static final int BROKEN = -2147483648;
         static final long FARTHEST = 1000000000L;
 
         static final int TURNS = 0;

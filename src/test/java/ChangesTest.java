@@ -12,18 +12,18 @@ public final class ChangesTest {
     }
 
     private static void step() {
-        TopSays x = Check.with(3, 5, 2, 4, 1);
+        Counted x = Counted.with(3, 5, 2, 4, 1);
         Check.due("step", x.step(0), 1);
-        Check.cards(x, 0, 2, 5, 3, 4, 1);
+        x.lies(0, 2, 5, 3, 4, 1);
         Check.due("last", x.of(0, 2), 3);
         Check.due("step", x.step(0), 2);
-        Check.cards(x, 0, 5, 2, 3, 4, 1);
+        x.lies(0, 5, 2, 3, 4, 1);
         Check.due("step", x.step(0), 3);
-        Check.cards(x, 0, 1, 4, 3, 2, 5);
+        x.lies(0, 1, 4, 3, 2, 5);
         Check.due("ended", x.step(0), -3);
         Check.due("status", x.status(), -3);
         Check.due("claps stay", x.of(0, 1), 3);
-        Check.heap(x, 3, 1);
+        x.heap(3, 1);
         Check.due("stuck", x.step(1), -3);
         Check.due("count(7)", x.count(7), 2);
         Check.due("no such heap", x.step(2), -2);
@@ -31,31 +31,31 @@ public final class ChangesTest {
         Check.due("no such heap", x.step(Integer.MIN_VALUE), -2);
         Check.due("no such heap", x.step(Integer.MAX_VALUE), -2);
         Check.due("count(6)", x.count(6), 4);
-        TopSays y = Check.with(13, 2, 3, 4, 5, 6, 7, 8, 9, 10, 11, 12, 1);
+        Counted y = Counted.with(13, 2, 3, 4, 5, 6, 7, 8, 9, 10, 11, 12, 1);
         Check.due("thirteen", y.step(0), 1);
-        Check.cards(y, 0, 1, 12, 11, 10, 9, 8, 7, 6, 5, 4, 3, 2, 13);
+        y.lies(0, 1, 12, 11, 10, 9, 8, 7, 6, 5, 4, 3, 2, 13);
         Check.due("last", y.of(0, 2), 13);
     }
 
     private static void joker() {
-        TopSays x = Check.with(3, 2, 0, 1);
+        Counted x = Counted.with(3, 2, 0, 1);
         x.step(0);
-        Check.cards(x, 0, 0, 2, 3, 1);
+        x.lies(0, 0, 2, 3, 1);
         Check.due("it turns as many as were turned last", x.of(0, 5), 3);
         x.step(0);
-        Check.cards(x, 0, 3, 2, 0, 1);
-        TopSays y = Check.with(0, 1);
+        x.lies(0, 3, 2, 0, 1);
+        Counted y = Counted.with(0, 1);
         Check.due("a joker that turns none", y.step(0), 1);
-        Check.cards(y, 0, 0, 1);
+        y.lies(0, 0, 1);
         Check.due("again", y.step(0), 2);
     }
 
     private static void swap() {
-        TopSays x = Check.with(3, 1, 2);
+        Counted x = Counted.with(3, 1, 2);
         Check.due("swap", x.swap(0, 0, 2), 2);
-        Check.cards(x, 0, 2, 1, 3);
+        x.lies(0, 2, 1, 3);
         Check.due("swap", x.swap(0, 2, 1), 2);
-        Check.cards(x, 0, 2, 3, 1);
+        x.lies(0, 2, 3, 1);
         Check.due("claps", x.of(0, 1), 0);
         Check.due("one place twice", x.swap(0, 1, 1), -1);
         Check.due("status", x.status(), -1);
@@ -67,23 +67,23 @@ public final class ChangesTest {
         Check.due("no heap is ahead", x.swap(1, 1, 1), -2);
         Check.due("no heap is ahead", x.swap(-1, 9, 9), -2);
         Check.due("count(6)", x.count(6), 2);
-        Check.cards(x, 0, 2, 3, 1);
-        Check.heap(x, 5, 5);
+        x.lies(0, 2, 3, 1);
+        x.heap(5, 5);
         Check.due("alike cards may be swapped", x.swap(1, 0, 1), 5);
         Check.due("and undone", x.undo(), 1);
     }
 
     private static void cut() {
-        TopSays x = Check.with(3, 1, 2);
+        Counted x = Counted.with(3, 1, 2);
         x.step(0);
         Check.due("cut", x.cut(0, 1), 1);
-        Check.cards(x, 0, 1, 3, 2);
+        x.lies(0, 1, 3, 2);
         Check.due("last stays", x.of(0, 2), 3);
         Check.due("claps stay", x.of(0, 1), 1);
         Check.due("cut", x.cut(0, 2), 2);
-        Check.cards(x, 0, 2, 1, 3);
+        x.lies(0, 2, 1, 3);
         Check.due("all", x.cut(0, 3), 2);
-        Check.cards(x, 0, 2, 1, 3);
+        x.lies(0, 2, 1, 3);
         Check.due("none", x.cut(0, 0), -1);
         Check.due("too many", x.cut(0, 4), -1);
         Check.due("below", x.cut(0, -1), -1);
@@ -95,21 +95,21 @@ public final class ChangesTest {
     }
 
     private static void undo() {
-        TopSays x = Check.with(3, 1, 2);
+        Counted x = Counted.with(3, 1, 2);
         Check.due("nothing yet", x.undo(), -3);
         Check.due("status", x.status(), -3);
         x.step(0);
         x.swap(0, 0, 1);
         x.cut(0, 2);
-        Check.orders(x, "cut 1 of 0;swap 1 with 2 of 0");
+        x.orders("cut 1 of 0;swap 1 with 2 of 0");
         Check.due("five", x.count(3), 5);
         Check.due("swap of orders", x.undo(), 1);
         Check.due("cut of orders", x.undo(), 2);
         Check.due("cut", x.undo(), 2);
-        Check.cards(x, 0, 1, 2, 3);
+        x.lies(0, 1, 2, 3);
         Check.due("swap", x.undo(), 1);
         Check.due("step", x.undo(), 0);
-        Check.cards(x, 0, 3, 1, 2);
+        x.lies(0, 3, 1, 2);
         Check.due("claps", x.of(0, 1), 0);
         Check.due("last", x.of(0, 2), 0);
         Check.due("nothing more", x.undo(), -3);
@@ -121,14 +121,14 @@ public final class ChangesTest {
         for (int i = 0; i < 16; i++) {
             Check.due("undo " + i, x.undo(), 2);
         }
-        Check.cards(x, 0, 1, 2, 3);
+        x.lies(0, 1, 2, 3);
         Check.due("the seventeenth", x.undo(), -3);
     }
 
     private static void undoIsCleared() {
-        TopSays x = Check.with(3, 1, 2);
+        Counted x = Counted.with(3, 1, 2);
         x.cut(0, 1);
-        Check.heap(x, 1);
+        x.heap(1);
         Check.due("by heap()", x.undo(), -3);
         x.cut(0, 1);
         x.terms(0, 0);
@@ -143,15 +143,15 @@ public final class ChangesTest {
     }
 
     private static void undoIsKept() {
-        TopSays x = Check.with(3, 1, 2);
+        Counted x = Counted.with(3, 1, 2);
         x.cut(0, 1);
-        Check.heap(x, 14);
+        x.heap(14);
         x.terms(0, 10);
         x.terms(2, 1);
         x.back(1);
         x.back(5);
         x.image(0);
-        Check.law(x, "turns 1");
+        x.law("turns 1");
         x.force(0);
         x.sight(0, 1);
         x.forget();
@@ -159,9 +159,9 @@ public final class ChangesTest {
         x.swap(0, 0, 0);
         x.cut(0, 9);
         x.step(4);
-        Check.orders(x, "step 4");
+        x.orders("step 4");
         Check.due("one", x.count(3), 1);
         Check.due("undo", x.undo(), 2);
-        Check.cards(x, 0, 3, 1, 2);
+        x.lies(0, 3, 1, 2);
     }
 }

@@ -6,6 +6,7 @@ public final class EdgesOfEveningsTest {
     public static void main(String[] args) {
         oneAndSixtyEvenings();
         leastAndGreatestSeed();
+        drawsByHand();
         drawsGoRound();
         oneCardIsNotShuffled();
         fromTheEndOfTheEveningBefore();
@@ -64,8 +65,17 @@ public final class EdgesOfEveningsTest {
         Check.due("-1", x.evenings(0, -1, 1), -1);
     }
 
+    private static void drawsByHand() {
+        Edge.says(28, "are shuffled: from the lowest place up to the second one, each with the place that a DRAW of how many there are "
+                + "down to it tells; then it goes on (LAST 0).");
+        // From 5 the draws are 17860 % 4 = 0, 711868 % 3 = 1, 200394 % 2 = 0: 9 8 7 6, 6 8 7 9, 6 7 8 9, 7 6 8 9.
+        Counted x = Counted.with(9, 8, 7, 6);
+        Check.due("it sticks", x.evenings(0, 5, 1), 0);
+        drawn(x, 0, -1, 7, 6, 8, 9);
+    }
+
     private static void drawsGoRound() {
-        Edge.says(28, "s becomes (s times 1103 and 12345) modulo 1,000,003, it is s modulo m.");
+        Edge.says(28, "a DRAW of m: s becomes (s times 1103 and 12345) modulo 1,000,003, it is s modulo m.");
         Counted x = Counted.with(1, 2, 3, 4, 5, 6, 7, 8, 9, 10, 11, 12, 13);
         long s = 1000000;
         int[] cards = {1, 2, 3, 4, 5, 6, 7, 8, 9, 10, 11, 12, 13};
@@ -102,7 +112,7 @@ public final class EdgesOfEveningsTest {
     }
 
     private static void fromTheEndOfTheEveningBefore() {
-        Edge.says(28, "(as they lay at the end of the evening before, at first as now)");
+        Edge.says(28, "Each evening a HEAP's CARDS (as they lay at the end of the evening before, at first as now) are shuffled");
         Counted x = Counted.with(3, 1, 2);
         // 2 1 3 ends as 1 2 3, which is shuffled to 1 3 2, that to 3 2 1, which ends as 1 2 3.
         Check.due("two", x.evenings(0, 0, 2), 2);
@@ -163,7 +173,7 @@ public final class EdgesOfEveningsTest {
     }
 
     private static void numbersThatCannotBe() {
-        Edge.says(28, "kept as the latest: how many ENDED. -1; -2 (ahead of -1).");
+        Edge.says(28, "EVENINGS of a HEAP, kept as the latest: how many ENDED. -1; -2 (ahead of -1).");
         for (int seed : new int[] {-1, LEAST, 1000001, 1000003, GREATEST}) {
             Untouched.by(Scene::rich, "evenings(0, " + seed + ", 1)", x -> x.evenings(0, seed, 1)).refused(-1);
         }

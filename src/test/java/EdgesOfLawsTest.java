@@ -9,9 +9,13 @@ public final class EdgesOfLawsTest {
         sumsBeyondOnTheWay();
         dividedByNothing();
         cutTowardsNothing();
+        signsFromTheLeft();
         brokenTests();
+        orsOfAnds();
+        notOfAPlain();
         orAsksOnlyIfItMatters();
         andAsksOnlyIfItMatters();
+        wordsOfAHeap();
         wordsWithoutACard();
         heapOfRowsThatAreNoHeap();
         moodAndLast();
@@ -123,6 +127,72 @@ public final class EdgesOfLawsTest {
         tells("999/1000", 0);
     }
 
+    private static void signsFromTheLeft() {
+        Edge.says(5, "SUM: TERM {(\"+\" | \"-\") TERM}. TERM: PART {(\"*\" | \"/\" | \"%\") PART}.");
+        tells("2+3*4", 14);
+        tells("2*3+4", 10);
+        tells("2*3+4*5", 26);
+        tells("20-6/3", 18);
+        tells("20-9%5", 16);
+        tells("20-3-4", 13);
+        tells("20-3+4", 21);
+        tells("20+3-4-5", 14);
+        tells("100/7/2", 7);
+        tells("100/7*7", 98);
+        tells("7*100/7", 100);
+        tells("101%7*3", 9);
+        tells("3*101%7", 2);
+        tells("100%60%7", 5);
+        tells("100%[60%7]", 0);
+        tells("[2+3]*4", 20);
+        tells("2*[3+4]", 14);
+        tells("20-[3-4]", 21);
+        tells("20-[3+4]", 13);
+        tells("100/[7/2]", 33);
+        tells("[[20]-[3]]*[2]", 34);
+        tells("top*top-many*many", 32);
+    }
+
+    private static void orsOfAnds() {
+        Edge.says(5, "TEST: BOTH {\"or\" BOTH}. BOTH: PLAIN {\"and\" PLAIN}.");
+        String[] tests = {"1=2", "1=1"};
+        for (int i = 0; i < 16; i++) {
+            boolean a = (i & 1) != 0;
+            boolean b = (i & 2) != 0;
+            boolean c = (i & 4) != 0;
+            boolean d = (i & 8) != 0;
+            String p = tests[i & 1];
+            String q = tests[i >> 1 & 1];
+            String r = tests[i >> 2 & 1];
+            String s = tests[i >> 3 & 1];
+            test(p + " or " + q + " and " + r, a || b && c, false);
+            test(p + " and " + q + " or " + r, a && b || c, false);
+            test(p + " and " + q + " or " + r + " and " + s, a && b || c && d, false);
+            test(p + " or " + q + " and " + r + " or " + s, a || b && c || d, false);
+            test("(" + p + " or " + q + ") and (" + r + " or " + s + ")", (a || b) && (c || d), false);
+            test(p + " and (" + q + " or " + r + ") and " + s, a && (b || c) && d, false);
+        }
+    }
+
+    private static void notOfAPlain() {
+        Edge.says(5, "PLAIN: \"not\" PLAIN | \"(\" TEST \")\" | SUM (\"<\" | \">\" | \"=\") SUM.");
+        test("not 1=1", false, false);
+        test("not 1=2", true, false);
+        test("not not 1=1", true, false);
+        test("not not not 1=1", false, false);
+        // "not" is of what stands next alone.
+        test("not 1=2 and 1=2", false, false);
+        test("not 1=1 or 1=1", true, false);
+        test("not (1=2 and 1=2)", true, false);
+        test("not (1=1 or 1=1)", false, false);
+        test("1=1 and not 1=2", true, false);
+        test("1=2 or not not (1=1)", true, false);
+        test("not 1+1<1*1", true, false);
+        test("((1+1)=2)".replace("(1+1)", "[1+1]"), true, false);
+        test("2*2>3 and 3<2*2 and 4=2*2", true, false);
+        test("2*2>4 or 4<2*2 or 5=2*2", false, false);
+    }
+
     private static void brokenTests() {
         Edge.says(5, "a SUM, a TEST is BROKEN");
         for (String sign : new String[] {"<", ">", "="}) {
@@ -170,6 +240,26 @@ public final class EdgesOfLawsTest {
         test("1=1 and (1=2 or 1/0=1)", false, true);
         test("1=2 and 1/0=1 or 1=2 and 1/0=1", false, false);
         test("not 1=1 and 1/0=1", false, false);
+    }
+
+    private static void wordsOfAHeap() {
+        Edge.says(5, "All are asked of a HEAP: top, second, third: these CARDS (-1: none), under: the lowest one, many: how many there "
+                + "are, last: LAST, heap: its number");
+        String[] words = {"top", "second", "third", "under", "many", "last", "heap"};
+        // Heap 0 is 5 4 3 2 with last 3 behind a step, heap 1 has made none.
+        int[][] due = {{5, 4, 3, 2, 4, 3, 0}, {7, 8, -1, 8, 2, 0, 1}};
+        for (int w = 0; w < words.length; w++) {
+            Counted x = Counted.with(3, 4, 5, 2);
+            x.heap(7, 8);
+            x.step(0);
+            x.lies(0, 5, 4, 3, 2);
+            x.law("turns " + words[w] + ";sinks [" + words[w] + "]*10");
+            x.force(0);
+            for (int heap = 0; heap < 2; heap++) {
+                Check.due(words[w] + " of heap " + heap, x.of(heap, 5), due[heap][w]);
+                Check.due("ten times " + words[w] + " of heap " + heap, x.of(heap, 6), due[heap][w] * 10);
+            }
+        }
     }
 
     private static void wordsWithoutACard() {

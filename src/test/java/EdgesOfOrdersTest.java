@@ -1,6 +1,7 @@
 /** The edges of promises 8 and 10: orders that are run wholly or not at all, and where they stopped. */
 public final class EdgesOfOrdersTest {
     public static void main(String[] args) {
+        whatTheSumsAre();
         howManyWereRun();
         noneIsRun();
         theMostThatCanBeRun();
@@ -51,6 +52,25 @@ public final class EdgesOfOrdersTest {
         Check.due("stopped: " + text, x.stopped(), -1);
         Check.due("status: " + text, x.status(), 0);
         Check.due("what can be undone: " + text, x.count(3), Math.min(run, 16));
+    }
+
+    private static void whatTheSumsAre() {
+        Edge.says(8, "(a HEAP; two places, a HEAP; how many, a HEAP.)");
+        Counted x = Counted.with(4, 5, 6, 7);
+        x.heap(3, 1, 2);
+        x.heap(8, 9, 10);
+        Check.due("a heap", x.orders("step 1"), 1);
+        x.lies(1, 2, 1, 3);
+        Check.due("two places, a heap", x.orders("swap 0 with 2 of 1"), 1);
+        x.lies(1, 3, 1, 2);
+        Check.due("two places, a heap", x.orders("swap 2 with 1 of 0"), 1);
+        x.lies(0, 4, 6, 5, 7);
+        Check.due("how many, a heap", x.orders("cut 2 of 1"), 1);
+        x.lies(1, 2, 3, 1);
+        Check.due("how many, a heap", x.orders("cut 1 of 2"), 1);
+        x.lies(2, 9, 10, 8);
+        x.lies(1, 2, 3, 1);
+        x.lies(0, 4, 6, 5, 7);
     }
 
     private static void howManyWereRun() {

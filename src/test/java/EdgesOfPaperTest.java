@@ -7,7 +7,10 @@ public final class EdgesOfPaperTest {
     private static final String LONG_LAW = "turns [top+last]%many+1;ends if top=1 and second=2";
 
     public static void main(String[] args) {
+        onPaper();
+        goesFromAsItIs();
         goesAtOnce();
+        goesEndsAheadOfRound();
         goesTillLong();
         goesTillTheLongestLong();
         goesTillLongAtFirst();
@@ -64,6 +67,51 @@ public final class EdgesOfPaperTest {
         Check.due("how heap " + heap + " goes", x.goes(heap, 0), how);
         Check.due("behind how many", x.goes(heap, 1), behind);
         Check.due("so first", x.goes(heap, 2), first);
+    }
+
+    private static void onPaper() {
+        Edge.says(16, "(On paper:) a HEAP GOES ON from as it is by STEPS till it has ENDED, STICKS, or is as it was at an earlier time");
+        for (int heap = 0; heap < 3; heap++) {
+            int h = heap;
+            Untouched.by(Scene::rich, "goes(" + h + ", 0)", x -> x.goes(h, 0)).leavesAll();
+            Untouched.by(Scene::rich, "after(" + h + ", 7, 0)", x -> x.after(h, 7, 0)).leavesAll();
+            Untouched.by(Scene::rich, "to(" + h + ", -1, 0)", x -> x.to(h, -1, 0)).leavesAll();
+            Untouched.by(Scene::rich, "cheat(" + h + ", 0)", x -> x.cheat(h, 0)).leavesAll();
+            Untouched.by(Scene::rich, "odds(" + h + ", 1, 2, 0)", x -> x.odds(h, 1, 2, 0)).leavesAll();
+            Untouched.by(Scene::rich, "fits(" + h + ", -1, 0)", x -> x.fits(h, -1, 0)).leavesAll();
+            Untouched.by(Scene::rich, "race(" + h + ", 1)", x -> x.race(h, 1)).leavesAll();
+            Untouched.by(Scene::rich, "sorted(" + h + ", 0)", x -> x.sorted(h, 0)).leavesAll();
+        }
+        Untouched.by(Scene::rich, "longest(7, 0)", x -> x.longest(7, 0)).leavesAll();
+        Untouched.by(Scene::rich, "orderly(7, 0)", x -> x.orderly(7, 0)).leavesAll();
+    }
+
+    private static void goesFromAsItIs() {
+        Edge.says(16, "A HEAP GOES ON: 0 it ENDS, 1 STICKS, 2 comes ROUND, 3 none of these in LONG STEPS (what 0); behind how many STEPS (1;");
+        // 3 1 2, 2 1 3, 1 2 3; cut in between it is 1 3 2.
+        Counted x = Counted.with(3, 1, 2);
+        goes(x, 0, 0, 2, -1);
+        x.step(0);
+        goes(x, 0, 0, 1, -1);
+        x.cut(0, 1);
+        goes(x, 0, 0, 0, -1);
+        x.undo();
+        x.swap(0, 0, 2);
+        goes(x, 0, 0, 2, -1);
+        // Its last is as it is, too: a joker on top turns two of 0 2 1, none of them if it had made no step.
+        Counted y = Counted.with(2, 0, 1);
+        y.step(0);
+        y.heap(0, 2, 1);
+        goes(y, 0, 2, 2, 0);
+        goes(y, 1, 2, 1, 0);
+    }
+
+    private static void goesEndsAheadOfRound() {
+        Edge.says(16, "it has ENDED, STICKS are looked for ahead of ROUND)");
+        // The cards are as they were, but what was turned last ends it, or makes it stick.
+        goes(Counted.under("turns 1;ends if last=1", 5, 6), 0, 0, 1, -1);
+        goes(Counted.under("turns 1;turns 9 if last=1;ends if 1=2", 5, 6), 0, 1, 1, -1);
+        goes(Counted.under("turns 1;ends if 1=2", 5, 6), 0, 2, 2, 1);
     }
 
     private static void goesAtOnce() {
@@ -447,7 +495,7 @@ public final class EdgesOfPaperTest {
     }
 
     private static void toPlaces() {
-        Edge.says(20, "how many ROWS (i NONE), of the i-th the CARD at a place.");
+        Edge.says(20, "What leads TO a HEAP: how many ROWS (i NONE), of the i-th the CARD at a place.");
         Counted x = Counted.with(1, 2, 3);
         Check.due("how many", x.to(0, -1, 0), 2);
         Check.due("the place does not matter", x.to(0, -1, LEAST), 2);
@@ -548,7 +596,7 @@ public final class EdgesOfPaperTest {
     }
 
     private static void cheatWithout() {
-        Edge.says(21, "STEPS (what 0), the first (1), the second place (2). NONE (none ENDS).");
+        Edge.says(21, "A CHEAT: STEPS (what 0), the first (1), the second place (2). NONE (none ENDS).");
         Counted x = Counted.with(5, 6);
         cheat(x, 0, -1, -1, -1);
         x.heap(2, 1);
@@ -617,7 +665,7 @@ public final class EdgesOfPaperTest {
     }
 
     private static void oddsOfSteps() {
-        Edge.says(22, "for c STEPS 0 .. 300");
+        Edge.says(22, "ODDS, so many upper CARDS being seen, for c STEPS 0 .. 300: the upper (what 0), the lower number (1).");
         Counted x = Counted.under(LONG_LAW, 4, 6, 2, 3, 5, 1, 7);
         x.terms(1, 300);
         odds(x, 7, 300, 1, 1);
@@ -771,7 +819,8 @@ public final class EdgesOfPaperTest {
     }
 
     private static void raceEnds() {
-        Edge.says(26, "0 the first, 1 the second, 2 both behind as many; one that does not END is the later one.");
+        Edge.says(26, "Which of two HEAPS ENDS behind fewer STEPS: 0 the first, 1 the second, 2 both behind as many; one that does not "
+                + "END is the later one.");
         Counted x = Counted.with(3, 1, 2);
         x.heap(2, 1);
         x.heap(1, 2);
@@ -840,7 +889,7 @@ public final class EdgesOfPaperTest {
     }
 
     private static void sortedFirst() {
-        Edge.says(27, "the fewest blocks of 2 or more upper CARDS turned over so that the CARDS rise from the TOP on "
+        Edge.says(27, "PUT IN ORDER: the fewest blocks of 2 or more upper CARDS turned over so that the CARDS rise from the TOP on "
                 + "(alike ones beside each other); the first as a row of how many.");
         // Each has the other ways told, as short ones, behind the first.
         Counted x = Counted.with(1, 3, 2);
@@ -872,7 +921,7 @@ public final class EdgesOfPaperTest {
     }
 
     private static void sortedWithout() {
-        Edge.says(27, "how many blocks (what 0), how many CARDS the i-th has (1 + i). NONE");
+        Edge.says(27, "PUT IN ORDER: how many blocks (what 0), how many CARDS the i-th has (1 + i). NONE");
         for (int what : new int[] {-1, LEAST, 9, GREATEST}) {
             Untouched.by(Scene::rich, "sorted(0, " + what + ")", x -> x.sorted(0, what)).answers(-1);
         }

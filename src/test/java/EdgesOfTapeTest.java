@@ -21,6 +21,7 @@ public final class EdgesOfTapeTest {
         heapWithoutRoom();
         heapOfARowThatCannotBe();
         heapFirstRefusal();
+        ofWhat();
         ofNewHeap();
         ofPlaces();
         ofWithout();
@@ -201,7 +202,7 @@ public final class EdgesOfTapeTest {
     }
 
     private static void heapNumbers() {
-        Edge.says(4, "HEAPS 0 .. 5 (6 at most)");
+        Edge.says(4, "HEAPS 0 .. 5 (6 at most): 1 .. 13 CARDS in a row, the TOP one first,");
         Counted x = new Counted();
         x.image(0);
         for (int round = 0; round < 3; round++) {
@@ -293,6 +294,31 @@ public final class EdgesOfTapeTest {
             x.end(0);
             return x.heap();
         }).tapeIsEmpty().refused(-5);
+    }
+
+    private static void ofWhat() {
+        Edge.says(5, "Of a HEAP how many CARDS (what 0), CLAPS (1), LAST (2), whether it has ENDED (3: 1, 0), STICKS (4), "
+                + "what it TURNS (5), SINKS (6;");
+        Counted x = Counted.with(3, 1, 2, 9);
+        // 3 1 2 9, 2 1 3 9, 1 2 3 9, and 9 3 1 2 sticks.
+        int[][] due = {{4, 0, 0, 0, 0, 3, 0}, {4, 1, 3, 0, 0, 2, 0}, {4, 2, 2, 1, 0, 1, 0}};
+        for (int step = 0; step < due.length; step++) {
+            for (int what = 0; what < 7; what++) {
+                Check.due("of(0, " + what + ") behind " + step, x.of(0, what), due[step][what]);
+            }
+            x.step(0);
+        }
+        x.heap(9, 3, 1, 2);
+        int[] stuck = {4, 0, 0, 0, 1, 9, 0};
+        for (int what = 0; what < 7; what++) {
+            Check.due("of(1, " + what + ")", x.of(1, what), stuck[what]);
+        }
+        x.law("turns 1 if top=9;sinks 4");
+        x.force(0);
+        int[] free = {4, 0, 0, 0, 0, 1, 4};
+        for (int what = 0; what < 7; what++) {
+            Check.due("of(1, " + what + ") by a law", x.of(1, what), free[what]);
+        }
     }
 
     private static void ofNewHeap() {

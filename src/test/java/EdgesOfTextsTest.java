@@ -1,6 +1,7 @@
 /** The edges of promises 7 to 9: what can be read as a law or as orders, and where a fault is. */
 public final class EdgesOfTextsTest {
     public static void main(String[] args) {
+        textsOfTheWholeTape();
         tokensAreLongestRows();
         lettersAndDigitsEnd();
         otherBytesAreSingle();
@@ -71,6 +72,18 @@ public final class EdgesOfTextsTest {
         Check.due("count(9) behind " + text, x.count(9), 1);
         Check.due("laws behind " + text, x.count(2), 0);
         Check.due("the tape behind " + text, x.count(4), 0);
+    }
+
+    private static void textsOfTheWholeTape() {
+        Edge.says(7, "TEXTS are on a TAPE of at most 400 bytes.");
+        Counted x = Counted.under("turns 1" + " ".repeat(391) + "+1", 5, 4);
+        Check.due("the 400th byte is read", x.of(0, 5), 2);
+        Check.due("orders of 400 bytes", x.orders("cut 1 of 0" + " ".repeat(382) + "times 1x"), -6);
+        Check.due("their FAULT", x.fault(), 399);
+        Check.due("orders of 400 bytes", x.orders("cut 1 of 0" + " ".repeat(382) + "times 13"), 13);
+        x.lies(0, 4, 5);
+        faultOfLaw("turns 1" + " ".repeat(392) + "+", 400);
+        faultOfLaw("turns 1" + " ".repeat(391) + "+x", 399);
     }
 
     private static void tokensAreLongestRows() {
@@ -403,7 +416,7 @@ public final class EdgesOfTextsTest {
     }
 
     private static void grammarOfOrders() {
-        Edge.says(8, "CLAUSE: (\"step\" SUM | \"swap\" SUM \"with\" SUM \"of\" SUM | \"cut\" SUM \"of\" SUM) "
+        Edge.says(8, "ORDERS: CLAUSE: (\"step\" SUM | \"swap\" SUM \"with\" SUM \"of\" SUM | \"cut\" SUM \"of\" SUM) "
                 + "[\"times\" TIMES] [\"if\" TEST].");
         reads("step 0 if 1=2");
         reads("swap 0 with 1 of 0 if 1=2");

@@ -10,7 +10,7 @@ public final class EveningsTest {
         Check.finish("EveningsTest");
     }
 
-    private static void drawn(TopSays x, int together, int most, int... beginning) {
+    private static void drawn(Counted x, int together, int most, int... beginning) {
         Check.due("together", x.drawn(0), together);
         Check.due("the most", x.drawn(1), most);
         for (int i = 0; i < beginning.length; i++) {
@@ -20,19 +20,19 @@ public final class EveningsTest {
     }
 
     private static void hold() {
-        TopSays x = Check.with(3, 1, 2);
+        Counted x = Counted.with(3, 1, 2);
         Check.due("evenings", x.evenings(0, 0, 1), 1);
         drawn(x, 1, 1, 2, 1, 3);
-        Check.cards(x, 0, 3, 1, 2);
+        x.lies(0, 3, 1, 2);
         Check.due("claps", x.of(0, 1), 0);
-        Check.heap(x, 2, 1);
+        x.heap(2, 1);
         // The draws of 2 are 12345 and 628841: both leave it as it lies, so it ends behind 1 and behind 0.
         Check.due("the second goes on from the first's end", x.evenings(1, 0, 2), 2);
         drawn(x, 1, 1, 1, 2);
         // The draw of 2 from 1 is 13448: it changes them.
         Check.due("another seed", x.evenings(1, 1, 1), 1);
         drawn(x, 0, 0, 1, 2);
-        Check.heap(x, 1);
+        x.heap(1);
         Check.due("one card, no draw", x.evenings(2, 7, 60), 60);
         drawn(x, 0, 0, 1);
         Check.due("what -1", x.drawn(-1), -1);
@@ -41,7 +41,7 @@ public final class EveningsTest {
     }
 
     private static void seeds() {
-        TopSays x = Check.with(1, 2, 3, 4, 5, 6, 7, 8, 9, 10, 11, 12, 13);
+        Counted x = Counted.with(1, 2, 3, 4, 5, 6, 7, 8, 9, 10, 11, 12, 13);
         Check.due("the greatest seed, the most evenings", x.evenings(0, 1000000, 60), 60);
         int together = x.drawn(0);
         int most = x.drawn(1);
@@ -49,9 +49,9 @@ public final class EveningsTest {
         long s = 1000000;
         int steps = 0;
         int longest = 0;
-        TopSays y = Check.with(1, 2, 3, 4, 5, 6, 7, 8, 9, 10, 11, 12, 13);
+        Counted y = Counted.with(1, 2, 3, 4, 5, 6, 7, 8, 9, 10, 11, 12, 13);
         for (int i = 0; i < 60; i++) {
-            TopSays z = new TopSays();
+            Counted z = new Counted();
             int[] cards = new int[13];
             for (int p = 0; p < 13; p++) {
                 cards[p] = y.after(0, 300, p);
@@ -63,7 +63,7 @@ public final class EveningsTest {
                 cards[p] = cards[q];
                 cards[q] = card;
             }
-            Check.heap(z, cards);
+            z.heap(cards);
             beginning = cards;
             steps += z.goes(0, 1);
             longest = Math.max(longest, z.goes(0, 1));
@@ -75,18 +75,18 @@ public final class EveningsTest {
     }
 
     private static void none() {
-        TopSays x = Check.with(5);
+        Counted x = Counted.with(5);
         Check.due("none ends", x.evenings(0, 3, 60), 0);
         drawn(x, 0, -1, 5);
-        Check.heap(x, 3, 1, 2);
-        Check.law(x, "ends if 1=2");
+        x.heap(3, 1, 2);
+        x.law("ends if 1=2");
         x.force(0);
         Check.due("none ends", x.evenings(1, 0, 1), 0);
         drawn(x, 0, -1, 2, 1, 3);
     }
 
     private static void refused() {
-        TopSays x = Check.with(3, 1, 2);
+        Counted x = Counted.with(3, 1, 2);
         Check.due("none held", x.drawn(0), -1);
         Check.due("none held", x.drawn(1), -1);
         Check.due("none held", x.drawn(2), -1);
@@ -109,7 +109,7 @@ public final class EveningsTest {
     }
 
     private static void kept() {
-        TopSays x = Check.with(3, 1, 2);
+        Counted x = Counted.with(3, 1, 2);
         x.image(0);
         x.evenings(0, 0, 1);
         x.swap(0, 0, 1);
@@ -119,7 +119,7 @@ public final class EveningsTest {
 
     /** What does not end, or has a joker, goes on from where it stopped, last being 0. */
     private static void wayOn() {
-        TopSays x = Check.under("turns 0;sinks 1;ends if 1=2", 2, 1, 3);
+        Counted x = Counted.under("turns 0;sinks 1;ends if 1=2", 2, 1, 3);
         // 2 1 3 is shuffled to 3 1 2 (draws 0, 1) and comes round to itself.
         x.evenings(0, 0, 1);
         drawn(x, 0, -1, 3, 1, 2);
@@ -127,10 +127,10 @@ public final class EveningsTest {
         Check.due("one step only, then again", x.evenings(0, 0, 2), 0);
         // From 3 1 2 one step leads to 1 2 3; the draws 621889 and 953857 make 1 3 2 of it.
         drawn(x, 0, -1, 1, 3, 2);
-        TopSays y = Check.with(2, 1, 3);
+        Counted y = Counted.with(2, 1, 3);
         y.swap(0, 0, 2);
         Check.due("the same shuffled", y.evenings(0, 0, 1), 1);
-        TopSays z = Check.with(0, 1);
+        Counted z = Counted.with(0, 1);
         z.evenings(0, 0, 3);
         Check.due("last is 0 each evening", z.drawn(1) > 0 ? 1 : 0, 0);
     }

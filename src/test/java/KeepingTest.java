@@ -13,7 +13,7 @@ public final class KeepingTest {
     }
 
     private static void terms() {
-        TopSays x = new TopSays();
+        Counted x = new Counted();
         Check.due("mood", x.terms(0, 9), 0);
         Check.due("mood", x.terms(0, 0), 9);
         Check.due("long", x.terms(1, 300), 200);
@@ -35,7 +35,7 @@ public final class KeepingTest {
     }
 
     private static void images() {
-        TopSays x = Check.with(3, 1, 2);
+        Counted x = Counted.with(3, 1, 2);
         Check.due("not kept", x.back(0), -2);
         Check.due("not kept", x.back(1), -2);
         Check.due("image", x.image(0), 0);
@@ -43,31 +43,31 @@ public final class KeepingTest {
         Check.due("image", x.image(1), 0);
         x.step(0);
         Check.due("back", x.back(1), 0);
-        Check.cards(x, 0, 2, 1, 3);
+        x.lies(0, 2, 1, 3);
         Check.due("claps", x.of(0, 1), 1);
         Check.due("last", x.of(0, 2), 3);
         Check.due("back", x.back(0), 0);
-        Check.cards(x, 0, 3, 1, 2);
+        x.lies(0, 3, 1, 2);
         Check.due("images stay", x.back(1), 0);
-        Check.cards(x, 0, 2, 1, 3);
+        x.lies(0, 2, 1, 3);
         x.cut(0, 1);
         Check.due("an image is no more than it was", x.back(1), 0);
-        Check.cards(x, 0, 2, 1, 3);
+        x.lies(0, 2, 1, 3);
         Check.due("kept anew", x.image(0), 0);
         x.back(0);
-        Check.cards(x, 0, 2, 1, 3);
+        x.lies(0, 2, 1, 3);
     }
 
     private static void whatIsKept() {
-        TopSays x = Check.with(3, 1, 2);
-        Check.law(x, "turns 1");
+        Counted x = Counted.with(3, 1, 2);
+        x.law("turns 1");
         x.force(0);
         x.sight(1, 2);
         x.terms(0, 4);
         x.terms(1, 30);
         x.image(1);
-        Check.heap(x, 2, 1);
-        Check.law(x, "turns 2");
+        x.heap(2, 1);
+        x.law("turns 2");
         x.force(1);
         x.sight(2, 2);
         x.terms(0, 5);
@@ -79,14 +79,14 @@ public final class KeepingTest {
         }
         Check.due("the law", x.of(0, 5), 1);
         Check.due("heap 1 is gone", x.of(1, 0), -1001);
-        Check.due("the next heap", Check.heap(x, 5, 4), 1);
-        Check.cards(x, 1, 5, 4);
-        Check.due("the next law", Check.law(x, "turns 7"), 1);
+        Check.due("the next heap", x.heap(5, 4), 1);
+        x.lies(1, 5, 4);
+        Check.due("the next law", x.law("turns 7"), 1);
         x.force(1);
         Check.due("is its own", x.of(0, 5), 7);
         x.forget();
         x.sight(0, 9);
-        Check.heap(x, 1);
+        x.heap(1);
         Check.due("back", x.back(1), 0);
         Check.due("sights", x.count(1), 1);
         x.force(-1);
@@ -94,12 +94,12 @@ public final class KeepingTest {
     }
 
     private static void whatIsNotKept() {
-        TopSays x = Check.with(3, 1, 2);
+        Counted x = Counted.with(3, 1, 2);
         x.image(0);
         x.cut(0, 9);
         x.step(8);
-        Check.law(x, "turns x");
-        Check.orders(x, "cut 1 of 0;step 7");
+        x.law("turns x");
+        x.orders("cut 1 of 0;step 7");
         x.cut(0, 1);
         x.feed(1, 2, 3, 4, 5);
         x.evenings(0, 0, 1);
@@ -113,13 +113,13 @@ public final class KeepingTest {
         Check.due("nothing to undo", x.count(3), 0);
         Check.due("the evenings", x.drawn(0), 1);
         x.end(0);
-        Check.law(x, "turns x");
+        x.law("turns x");
         x.back(0);
         Check.due("fault", x.fault(), 6);
     }
 
     private static void refused() {
-        TopSays x = new TopSays();
+        Counted x = new Counted();
         for (int k : new int[] {-1, 2, Integer.MIN_VALUE, Integer.MAX_VALUE}) {
             Check.due("image " + k, x.image(k), -1);
             Check.due("status", x.status(), -1);
@@ -131,14 +131,14 @@ public final class KeepingTest {
         Check.due("count(6)", x.count(6), 1);
         Check.due("an empty table", x.image(1), 0);
         Check.due("status", x.status(), 0);
-        Check.heap(x, 1);
+        x.heap(1);
         Check.due("back", x.back(1), 0);
         Check.due("no heaps", x.count(0), 0);
         Check.due("the other was not kept", x.back(0), -2);
     }
 
     private static void count() {
-        TopSays x = Check.with(3, 1, 2);
+        Counted x = Counted.with(3, 1, 2);
         for (int what : new int[] {-1, 13, Integer.MIN_VALUE, Integer.MAX_VALUE}) {
             Check.due("count(" + what + ")", x.count(what), -1);
         }
@@ -154,7 +154,7 @@ public final class KeepingTest {
     }
 
     private static void status() {
-        TopSays x = Check.with(3, 1, 2);
+        Counted x = Counted.with(3, 1, 2);
         Check.due("step of none", x.step(3), -2);
         x.feed(0, 0, 0, 0, 0);
         x.end(50);
@@ -197,16 +197,16 @@ public final class KeepingTest {
         x.force(-1);
         Check.due("status", x.status(), 0);
         x.undo();
-        Check.orders(x, "cut 1 of 0 if 1=2");
+        x.orders("cut 1 of 0 if 1=2");
         Check.due("status", x.status(), 0);
         x.undo();
-        Check.law(x, "ends");
+        x.law("ends");
         Check.due("status", x.status(), 0);
     }
 
     /** The first refusal in the order -1, -2, -3, -5, -6, but where the document tells another one. */
     private static void order() {
-        TopSays x = Check.with(3, 1, 2);
+        Counted x = Counted.with(3, 1, 2);
         Check.due("swap: -2 ahead of -1", x.swap(9, -1, -1), -2);
         Check.due("cut: -2 ahead of -1", x.cut(9, -1), -2);
         Check.due("evenings: -2 ahead of -1", x.evenings(9, -1, -1), -2);
@@ -216,7 +216,7 @@ public final class KeepingTest {
         }
         Check.due("sight: -1 ahead of -5", x.sight(-1, 1), -1);
         for (int i = 0; i < 6; i++) {
-            Check.heap(x, 1);
+            x.heap(1);
         }
         Check.due("heap: -5 ahead of -6", x.heap(), -5);
         Check.due("step: -2 ahead of -3", x.step(9), -2);

@@ -15,13 +15,13 @@ public final class LawTest {
     }
 
     private static void tells(String sum, int want, int... cards) {
-        TopSays x = Check.under("turns " + sum, cards);
+        Counted x = Counted.under("turns " + sum, cards);
         Check.due(sum, x.of(0, 5), want);
     }
 
     /** Whether a test is so: 1, 0. */
     private static void isSo(String test, int want) {
-        TopSays x = Check.under("ends if " + test, 4, 7, 9, 2);
+        Counted x = Counted.under("ends if " + test, 4, 7, 9, 2);
         Check.due(test, x.of(0, 3), want);
     }
 
@@ -38,8 +38,8 @@ public final class LawTest {
         tells("third", -1, 4, 3);
         tells("under", 4, 4);
         tells("top", 0, 0, 3);
-        TopSays x = Check.under("turns heap*100+mood*10+last", 2, 3, 1);
-        Check.heap(x, 3, 2, 1);
+        Counted x = Counted.under("turns heap*100+mood*10+last", 2, 3, 1);
+        x.heap(3, 2, 1);
         x.terms(0, 9);
         Check.due("heap and mood", x.of(1, 5), 190);
         x.force(-1);
@@ -49,8 +49,8 @@ public final class LawTest {
     }
 
     private static void wordsOfRows() {
-        TopSays x = Check.under("ends if heap=0-1; ends if heap=1", 2, 1, 3);
-        Check.heap(x, 2, 1, 3);
+        Counted x = Counted.under("ends if heap=0-1; ends if heap=1", 2, 1, 3);
+        x.heap(2, 1, 3);
         Check.due("orders are no heap", x.orderly(3, 0), 6);
         Check.due("rows of heap 0 have its number", x.odds(0, 0, 0, 0), 0);
         Check.due("rows of heap 1 have its number", x.odds(1, 0, 0, 0), 1);
@@ -67,10 +67,10 @@ public final class LawTest {
         tells("5;turns 1/0", 5, 4, 1);
         tells("5;turns 6 if 1/0=0", 5, 4, 1);
         tells("5;turns 6 if not 1/0=0", 5, 4, 1);
-        TopSays x = Check.under("sinks 1;turns 2;sinks 3 if top=4;sinks 1/0;turns 0", 4, 1);
+        Counted x = Counted.under("sinks 1;turns 2;sinks 3 if top=4;sinks 1/0;turns 0", 4, 1);
         Check.due("sinks", x.of(0, 6), 3);
         Check.due("turns", x.of(0, 5), 0);
-        TopSays y = Check.under("turns 5 if top>0", 0, 1);
+        Counted y = Counted.under("turns 5 if top>0", 0, 1);
         Check.due("last for a joker", y.of(0, 5), 0);
     }
 
@@ -130,35 +130,35 @@ public final class LawTest {
     }
 
     private static void ends() {
-        TopSays x = Check.under("ends if top=2", 1, 2);
+        Counted x = Counted.under("ends if top=2", 1, 2);
         Check.due("the ace does not end it", x.of(0, 3), 0);
-        Check.heap(x, 2, 1);
+        x.heap(2, 1);
         Check.due("a two does", x.of(1, 3), 1);
         Check.due("no step then", x.step(1), -3);
-        TopSays y = Check.under("ends if 1/0=1", 1, 2);
+        Counted y = Counted.under("ends if 1/0=1", 1, 2);
         Check.due("a broken one does not, but is there", y.of(0, 3), 0);
-        TopSays z = Check.under("turns 9; sinks 9", 1, 2);
+        Counted z = Counted.under("turns 9; sinks 9", 1, 2);
         Check.due("the ace without such a clause", z.of(0, 3), 1);
         Check.due("what has ended does not stick", z.of(0, 4), 0);
-        TopSays both = Check.under("ends if top=9;ends;ends if top=9", 5, 2);
+        Counted both = Counted.under("ends if top=9;ends;ends if top=9", 5, 2);
         Check.due("one of them is enough", both.of(0, 3), 1);
     }
 
     private static void sticks() {
-        Check.due("turns below 0", Check.under("turns 0-1", 2, 3).of(0, 4), 1);
-        Check.due("turns 0", Check.under("turns 0", 2, 3).of(0, 4), 0);
-        Check.due("turns all", Check.under("turns many", 2, 3).of(0, 4), 0);
-        Check.due("turns more", Check.under("turns many+1", 2, 3).of(0, 4), 1);
-        Check.due("sinks below 0", Check.under("sinks 0-1", 2, 3).of(0, 4), 1);
-        Check.due("sinks all", Check.under("sinks many", 2, 3).of(0, 4), 0);
-        Check.due("sinks more", Check.under("sinks many+1", 2, 3).of(0, 4), 1);
-        Check.due("no step then", Check.under("sinks many+1", 2, 3).step(0), -3);
+        Check.due("turns below 0", Counted.under("turns 0-1", 2, 3).of(0, 4), 1);
+        Check.due("turns 0", Counted.under("turns 0", 2, 3).of(0, 4), 0);
+        Check.due("turns all", Counted.under("turns many", 2, 3).of(0, 4), 0);
+        Check.due("turns more", Counted.under("turns many+1", 2, 3).of(0, 4), 1);
+        Check.due("sinks below 0", Counted.under("sinks 0-1", 2, 3).of(0, 4), 1);
+        Check.due("sinks all", Counted.under("sinks many", 2, 3).of(0, 4), 0);
+        Check.due("sinks more", Counted.under("sinks many+1", 2, 3).of(0, 4), 1);
+        Check.due("no step then", Counted.under("sinks many+1", 2, 3).step(0), -3);
     }
 
     private static void force() {
-        TopSays x = Check.with(3, 1, 2);
-        Check.law(x, "turns 1");
-        Check.law(x, "turns 2");
+        Counted x = Counted.with(3, 1, 2);
+        x.law("turns 1");
+        x.law("turns 2");
         Check.due("none was", x.force(1), -1);
         Check.due("status", x.status(), 0);
         Check.due("turns", x.of(0, 5), 2);
@@ -181,15 +181,15 @@ public final class LawTest {
     }
 
     private static void sinking() {
-        TopSays x = Check.under("sinks second; turns 3", 2, 1, 4, 5, 6);
+        Counted x = Counted.under("sinks second; turns 3", 2, 1, 4, 5, 6);
         Check.due("a step", x.step(0), 1);
-        Check.cards(x, 0, 1, 2, 5, 6, 4);
-        TopSays y = Check.under("sinks many; turns 2", 2, 1, 4);
+        x.lies(0, 1, 2, 5, 6, 4);
+        Counted y = Counted.under("sinks many; turns 2", 2, 1, 4);
         y.step(0);
-        Check.cards(y, 0, 1, 2, 4);
-        TopSays z = Check.under("turns 0; sinks 2", 2, 1, 4, 5);
+        y.lies(0, 1, 2, 4);
+        Counted z = Counted.under("turns 0; sinks 2", 2, 1, 4, 5);
         z.step(0);
-        Check.cards(z, 0, 4, 5, 2, 1);
+        z.lies(0, 4, 5, 2, 1);
         Check.due("last is what was turned", z.of(0, 2), 0);
     }
 }

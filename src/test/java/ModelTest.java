@@ -2,10 +2,11 @@ import java.util.Random;
 
 /** Runs by chance (always the same ones) on the class and on the model: every answer must be alike. */
 public final class ModelTest {
-    private static final int CALLS = 400;
+    /** Calls of one turn of a run at most, those that put a text of 400 bytes on the tape among them. */
+    private static final int CALLS_AT_ONCE = 32;
 
     private final Random chance;
-    private final TopSays x = new TopSays();
+    private final Counted x = new Counted();
     private final Model m = new Model();
     private final StringBuilder told = new StringBuilder();
     private final long seed;
@@ -17,7 +18,7 @@ public final class ModelTest {
     }
 
     public static void main(String[] args) {
-        int runs = args.length > 0 ? Integer.parseInt(args[0]) : 600;
+        int runs = args.length > 0 ? Integer.parseInt(args[0]) : 2000;
         long first = args.length > 1 ? Long.parseLong(args[1]) : 1;
         int wrong = 0;
         for (long seed = first; seed < first + runs && wrong < 5; seed++) {
@@ -42,7 +43,7 @@ public final class ModelTest {
     }
 
     private void go() {
-        for (int i = 0; i < CALLS && alike; i++) {
+        for (int i = 0; x.calls() + CALLS_AT_ONCE <= Counted.MOST_CALLS && alike; i++) {
             call(i);
             if (alike) {
                 same("status()", x.status(), m.status);

@@ -12,22 +12,22 @@ public final class PaperTest {
         Check.finish("PaperTest");
     }
 
-    private static void isHow(TopSays x, int heap, int how, int behind, int first) {
+    private static void isHow(Counted x, int heap, int how, int behind, int first) {
         Check.due("goes(" + heap + ", 0)", x.goes(heap, 0), how);
         Check.due("goes(" + heap + ", 1)", x.goes(heap, 1), behind);
         Check.due("goes(" + heap + ", 2)", x.goes(heap, 2), first);
     }
 
     private static void goes() {
-        TopSays x = Check.with(3, 1, 2);
+        Counted x = Counted.with(3, 1, 2);
         isHow(x, 0, 0, 2, -1);
-        Check.heap(x, 1, 2);
+        x.heap(1, 2);
         isHow(x, 1, 0, 0, -1);
-        Check.heap(x, 2, 5, 1);
+        x.heap(2, 5, 1);
         isHow(x, 2, 1, 1, -1);
-        Check.heap(x, 9, 1);
+        x.heap(9, 1);
         isHow(x, 3, 1, 0, -1);
-        Check.heap(x, 2, 9, 4, 5, 11, 12, 10, 1, 8, 13, 3, 6, 7);
+        x.heap(2, 9, 4, 5, 11, 12, 10, 1, 8, 13, 3, 6, 7);
         isHow(x, 4, 0, 80, -1);
         for (int what : new int[] {-1, 3, Integer.MIN_VALUE, Integer.MAX_VALUE}) {
             Check.due("what " + what, x.goes(0, what), -1);
@@ -40,23 +40,23 @@ public final class PaperTest {
     }
 
     private static void goesLong() {
-        TopSays x = Check.with(3, 1, 2);
+        Counted x = Counted.with(3, 1, 2);
         x.terms(1, 2);
         isHow(x, 0, 0, 2, -1);
         x.terms(1, 1);
         isHow(x, 0, 3, 1, -1);
-        Check.heap(x, 2, 5, 1);
+        x.heap(2, 5, 1);
         isHow(x, 1, 1, 1, -1);
-        Check.heap(x, 0, 5);
+        x.heap(0, 5);
         isHow(x, 2, 2, 1, 0);
         // Under a law that cuts one card each time it is as it was behind thirteen steps.
-        TopSays y = Check.under("turns 0;sinks 1;ends if 1=2", 1, 2, 3, 4, 5, 6, 7, 8, 9, 10, 11, 12, 13);
+        Counted y = Counted.under("turns 0;sinks 1;ends if 1=2", 1, 2, 3, 4, 5, 6, 7, 8, 9, 10, 11, 12, 13);
         isHow(y, 0, 2, 13, 0);
         y.terms(1, 13);
         isHow(y, 0, 2, 13, 0);
         y.terms(1, 12);
         isHow(y, 0, 3, 12, -1);
-        TopSays z = Check.with(2, 9, 4, 5, 11, 12, 10, 1, 8, 13, 3, 6, 7);
+        Counted z = Counted.with(2, 9, 4, 5, 11, 12, 10, 1, 8, 13, 3, 6, 7);
         z.terms(1, 80);
         isHow(z, 0, 0, 80, -1);
         z.terms(1, 79);
@@ -64,7 +64,7 @@ public final class PaperTest {
         z.terms(1, 300);
         isHow(z, 0, 0, 80, -1);
         // Turned and cut by sums of all that is asked, so that it neither ends nor comes round in 300 steps.
-        TopSays far = Check.under("turns [top*3+second+last]%[many+1];sinks [third+last]%7;ends if 1=2",
+        Counted far = Counted.under("turns [top*3+second+last]%[many+1];sinks [third+last]%7;ends if 1=2",
                 1, 2, 3, 4, 5, 6, 7, 8, 9, 10, 11, 12, 13);
         Check.due("far", far.goes(0, 0), 3);
         Check.due("at first 200 steps are looked at", far.goes(0, 1), 200);
@@ -73,20 +73,20 @@ public final class PaperTest {
     }
 
     private static void goesRound() {
-        TopSays x = Check.with(2, 2);
+        Counted x = Counted.with(2, 2);
         isHow(x, 0, 2, 2, 1);
         x.step(0);
         isHow(x, 0, 2, 1, 0);
-        Check.heap(x, 3, 2, 3);
+        x.heap(3, 2, 3);
         // Last belongs to how it lies: 3 2 3 with last 3 is there behind one step.
         isHow(x, 1, 2, 2, 1);
-        Check.heap(x, 4, 2, 3, 0);
+        x.heap(4, 2, 3, 0);
         // 4230 0324(4) 4230(4) 0324(4): the second and the fourth are alike.
         isHow(x, 2, 2, 3, 1);
     }
 
     private static void after() {
-        TopSays x = Check.with(3, 1, 2);
+        Counted x = Counted.with(3, 1, 2);
         int[][] rows = {{3, 1, 2}, {2, 1, 3}, {1, 2, 3}, {1, 2, 3}};
         for (int n = 0; n < rows.length; n++) {
             for (int place = 0; place < 3; place++) {
@@ -105,31 +105,31 @@ public final class PaperTest {
         Check.due("heap -1", x.after(-1, 0, 0), -1);
         x.terms(1, 1);
         Check.due("beyond what is looked ahead", x.after(0, 2, 0), 1);
-        Check.heap(x, 2, 3, 1);
-        Check.heap(x, 2, 9, 1);
+        x.heap(2, 3, 1);
+        x.heap(2, 9, 1);
         Check.due("till it sticks", x.after(2, 300, 0), 9);
-        TopSays y = Check.under("turns 0;sinks 1;ends if 1=2", 1, 2, 3);
+        Counted y = Counted.under("turns 0;sinks 1;ends if 1=2", 1, 2, 3);
         Check.due("round and round", y.after(0, 299, 0), 3);
         Check.due("round and round", y.after(0, 300, 0), 1);
         Check.due("round and round", y.after(0, 300, 2), 3);
     }
 
     private static void cheat() {
-        TopSays x = Check.with(3, 1, 2);
+        Counted x = Counted.with(3, 1, 2);
         Check.due("steps", x.cheat(0, 0), 1);
         Check.due("first place", x.cheat(0, 1), 0);
         Check.due("second place", x.cheat(0, 2), 2);
-        Check.heap(x, 2, 2, 1);
+        x.heap(2, 2, 1);
         Check.due("alike cards are not swapped", x.cheat(1, 0), 1);
         Check.due("first place", x.cheat(1, 1), 1);
         Check.due("second place", x.cheat(1, 2), 2);
-        Check.heap(x, 2, 0, 1);
+        x.heap(2, 0, 1);
         x.step(2);
-        Check.cards(x, 2, 0, 2, 1);
+        x.lies(2, 0, 2, 1);
         Check.due("from last as it is", x.cheat(2, 0), 1);
         Check.due("first place", x.cheat(2, 1), 1);
         Check.due("second place", x.cheat(2, 2), 2);
-        Check.heap(x, 9, 2, 4, 5, 11, 12, 10, 1, 8, 13, 3, 6, 7);
+        x.heap(9, 2, 4, 5, 11, 12, 10, 1, 8, 13, 3, 6, 7);
         Check.due("more than seven cards", x.cheat(3, 0), 80);
         Check.due("first place", x.cheat(3, 1), 0);
         Check.due("second place", x.cheat(3, 2), 1);
@@ -138,15 +138,15 @@ public final class PaperTest {
     }
 
     private static void cheatWithout() {
-        TopSays x = Check.with(5, 6);
+        Counted x = Counted.with(5, 6);
         for (int what = 0; what < 3; what++) {
             Check.due("none ends", x.cheat(0, what), -1);
         }
-        Check.heap(x, 1, 1);
+        x.heap(1, 1);
         Check.due("no unlike cards", x.cheat(1, 0), -1);
-        Check.heap(x, 1);
+        x.heap(1);
         Check.due("one card", x.cheat(2, 0), -1);
-        Check.heap(x, 2, 1);
+        x.heap(2, 1);
         Check.due("ends at once", x.cheat(3, 0), 0);
         Check.due("what 3", x.cheat(3, 3), -1);
         Check.due("what -1", x.cheat(3, -1), -1);
@@ -155,11 +155,11 @@ public final class PaperTest {
     }
 
     private static void race() {
-        TopSays x = Check.with(3, 1, 2);
-        Check.heap(x, 2, 1);
-        Check.heap(x, 5, 1);
-        Check.heap(x, 2, 2);
-        Check.heap(x, 2, 3, 1);
+        Counted x = Counted.with(3, 1, 2);
+        x.heap(2, 1);
+        x.heap(5, 1);
+        x.heap(2, 2);
+        x.heap(2, 3, 1);
         Check.due("the first", x.race(1, 0), 0);
         Check.due("the second", x.race(0, 1), 1);
         Check.due("both", x.race(0, 4), 2);
@@ -179,12 +179,12 @@ public final class PaperTest {
     }
 
     private static void nothingIsChanged() {
-        TopSays x = Check.with(3, 1, 2);
+        Counted x = Counted.with(3, 1, 2);
         x.goes(0, 0);
         x.after(0, 9, 0);
         x.cheat(0, 0);
         x.race(0, 0);
-        Check.cards(x, 0, 3, 1, 2);
+        x.lies(0, 3, 1, 2);
         Check.due("claps", x.of(0, 1), 0);
         Check.due("last", x.of(0, 2), 0);
         Check.due("nothing to undo", x.count(3), 0);

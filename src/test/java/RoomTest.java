@@ -1,11 +1,16 @@
 import java.lang.management.ManagementFactory;
 import java.util.Random;
 
-/** What a run makes is counted: 512 calls of the dearest kinds, and all arguments at the edges, in little room. */
+/** What the calls of one object make is counted, of the dearest kinds; and all arguments at the edges: no call throws. */
 public final class RoomTest {
-    private static final int CALLS = 512;
-    /** 600,000 objects and 7.3 million elements are far above this. */
-    private static final long ROOM = 2000000;
+    /**
+     * 600,000 objects of 24 bytes and 7.3 million elements of 8: what makes more bytes is surely beyond the room. (What makes
+     * fewer may be, too, if it makes small things; the class makes less than a hundredth of this.)
+     */
+    private static final long ROOM = 600000L * 24 + 7300000L * 8;
+    /** Calls of one turn below at most. */
+    private static final int CALLS_AT_ONCE = 4;
+    private static final int CALLS_OF_TWO_TEXTS = 45;
 
     private static final String LAW = "turns [top*3+second+last+third*under]%[many+1] if not (top=1 and second=2);"
             + "sinks [third+last+mood]%3 if top>1 or second<5 or third=0 or under=7;ends if top=1 and many>100";
@@ -24,16 +29,16 @@ public final class RoomTest {
         return bean.getThreadAllocatedBytes(Thread.currentThread().getId());
     }
 
-    private static TopSays full() {
-        TopSays x = Check.under(LAW, 0, 3, 2, 5, 4, 7, 6);
-        Check.heap(x, 1, 2, 3, 4, 5, 6, 7, 8, 9, 10, 11, 12, 13);
-        Check.heap(x, 7, 6, 5, 4, 3, 2, 1);
+    private static Counted full() {
+        Counted x = Counted.under(LAW, 0, 3, 2, 5, 4, 7, 6);
+        x.heap(1, 2, 3, 4, 5, 6, 7, 8, 9, 10, 11, 12, 13);
+        x.heap(7, 6, 5, 4, 3, 2, 1);
         x.terms(1, 300);
         x.sight(99, 3);
         return x;
     }
 
-    private static int call(TopSays x, int kind, int i) {
+    private static int call(Counted x, int kind, int i) {
         switch (kind) {
             case 0:
                 return x.longest(1 + i % 7, i % 5);
@@ -61,14 +66,14 @@ public final class RoomTest {
     }
 
     private static void dearest(int kind) {
-        TopSays warm = full();
+        Counted warm = full();
         for (int i = 0; i < 20; i++) {
             call(warm, kind, i);
         }
         long before = made();
-        TopSays x = full();
+        Counted x = full();
         long sum = 0;
-        for (int i = 0; i < CALLS; i++) {
+        for (int i = 0; x.calls() + CALLS_AT_ONCE <= Counted.MOST_CALLS; i++) {
             sum += call(x, kind, i);
         }
         long made = made() - before;
@@ -79,12 +84,12 @@ public final class RoomTest {
     private static void manyLaws() {
         String law = "turns 1" + Check.times("+1", 37) + Check.times(";ends if 1=2", 6) + Check.times(";sinks 1/0", 5);
         String orders = "cut 1 of 0 times 20" + Check.times(";cut 1 of 0 times 20", 11);
-        TopSays x = Check.with(3, 1, 2);
+        Counted x = Counted.with(3, 1, 2);
         x.image(0);
         long before = made();
-        for (int i = 0; i < 25; i++) {
-            Check.law(x, law);
-            Check.orders(x, orders);
+        while (x.calls() + CALLS_OF_TWO_TEXTS <= Counted.MOST_CALLS) {
+            x.law(law);
+            x.orders(orders);
             x.back(0);
         }
         long made = made() - before;
@@ -97,8 +102,8 @@ public final class RoomTest {
             301, 400, 1000000, 1000001, Integer.MAX_VALUE - 6, Integer.MAX_VALUE};
         Random chance = new Random(5);
         for (int run = 0; run < 120; run++) {
-            TopSays x = run % 4 == 0 ? new TopSays() : full();
-            for (int i = 0; i < CALLS; i++) {
+            Counted x = run % 4 == 0 ? new Counted() : full();
+            while (x.calls() < Counted.MOST_CALLS) {
                 int[] n = new int[5];
                 for (int k = 0; k < 5; k++) {
                     n[k] = chance.nextBoolean() ? some[chance.nextInt(some.length)] : chance.nextInt(4);
@@ -109,7 +114,7 @@ public final class RoomTest {
         Check.holds("no call has thrown", true);
     }
 
-    private static int any(TopSays x, int kind, int[] n) {
+    private static int any(Counted x, int kind, int[] n) {
         switch (kind) {
             case 0: return x.feed(n[0], n[1], n[2], n[3], n[4]);
             case 1: return x.end(n[0]);

@@ -17,7 +17,7 @@ public final class SortedTest {
         Check.finish("SortedTest");
     }
 
-    private static void blocks(TopSays x, int heap, int... blocks) {
+    private static void blocks(Counted x, int heap, int... blocks) {
         Check.due("how many blocks", x.sorted(heap, 0), blocks.length);
         for (int i = 0; i < blocks.length; i++) {
             Check.due("block " + i, x.sorted(heap, 1 + i), blocks[i]);
@@ -26,42 +26,42 @@ public final class SortedTest {
     }
 
     private static void few() {
-        TopSays x = Check.with(3, 1, 2);
+        Counted x = Counted.with(3, 1, 2);
         blocks(x, 0, 3, 2);
-        Check.heap(x, 1, 2, 3);
+        x.heap(1, 2, 3);
         blocks(x, 1);
-        Check.heap(x, 9);
+        x.heap(9);
         blocks(x, 2);
-        Check.heap(x, 13, 1);
+        x.heap(13, 1);
         blocks(x, 3, 2);
-        Check.heap(x, 1, 0);
+        x.heap(1, 0);
         blocks(x, 4, 2);
-        Check.heap(x, 1, 3, 2);
+        x.heap(1, 3, 2);
         blocks(x, 5, 2, 3, 2);
-        Check.law(x, "turns 1;ends");
+        x.law("turns 1;ends");
         x.force(0);
         x.terms(1, 1);
         blocks(x, 5, 2, 3, 2);
-        Check.cards(x, 5, 1, 3, 2);
+        x.lies(5, 1, 3, 2);
     }
 
     private static void alike() {
-        TopSays x = Check.with(2, 2, 1);
+        Counted x = Counted.with(2, 2, 1);
         blocks(x, 0, 3);
-        Check.heap(x, 2, 1, 2);
+        x.heap(2, 1, 2);
         blocks(x, 1, 2);
-        Check.heap(x, 1, 2, 1);
+        x.heap(1, 2, 1);
         blocks(x, 2, 2, 3);
-        Check.heap(x, 5, 5, 5, 5, 5, 5, 5);
+        x.heap(5, 5, 5, 5, 5, 5, 5);
         blocks(x, 3);
-        Check.heap(x, 7, 7, 3, 3, 3, 0, 0);
+        x.heap(7, 7, 3, 3, 3, 0, 0);
         blocks(x, 4, 7);
     }
 
     private static void without() {
-        TopSays x = Check.with(1, 2, 3, 4, 5, 6, 7, 8);
+        Counted x = Counted.with(1, 2, 3, 4, 5, 6, 7, 8);
         Check.due("eight cards", x.sorted(0, 0), -1);
-        Check.heap(x, 7, 6, 5, 4, 3, 2, 1);
+        x.heap(7, 6, 5, 4, 3, 2, 1);
         blocks(x, 1, 7);
         Check.due("no heap", x.sorted(2, 0), -1);
         Check.due("no heap", x.sorted(-1, 0), -1);
@@ -75,19 +75,19 @@ public final class SortedTest {
     private static void all(int n) {
         Map<String, Integer> away = distances(n);
         int i = 0;
-        TopSays x = null;
+        Counted x = null;
         for (List<Integer> row : Model.allRows(Model.upTo(n))) {
             if (i % 6 == 0) {
-                x = new TopSays();
+                x = new Counted();
             }
             int[] cards = row.stream().mapToInt(c -> c).toArray();
-            Check.heap(x, cards);
+            x.heap(cards);
             isFirst(x, i % 6, cards, away);
             i++;
         }
     }
 
-    private static void isFirst(TopSays x, int heap, int[] cards, Map<String, Integer> away) {
+    private static void isFirst(Counted x, int heap, int[] cards, Map<String, Integer> away) {
         int left = away.get(Arrays.toString(cards));
         int[] row = cards.clone();
         Check.due("how many for " + Arrays.toString(cards), x.sorted(heap, 0), left);
@@ -141,7 +141,7 @@ public final class SortedTest {
             int far = away.get(Arrays.toString(cards));
             farthest = Math.max(farthest, far);
             if (far == 8 || i % 7 == 0) {
-                isFirst(Check.with(cards), 0, cards, away);
+                isFirst(Counted.with(cards), 0, cards, away);
             }
             i++;
         }

@@ -12,7 +12,7 @@ public final class TapeTest {
     }
 
     private static void newObject() {
-        TopSays x = new TopSays();
+        Counted x = new Counted();
         int[] counts = {0, 0, 0, 0, 0, 0, 0, 0, 0, 0, -1, 0, 200};
         for (int what = 0; what < counts.length; what++) {
             Check.due("count(" + what + ") of a new object", x.count(what), counts[what]);
@@ -27,11 +27,11 @@ public final class TapeTest {
     }
 
     private static void feed() {
-        TopSays x = new TopSays();
+        Counted x = new Counted();
         Check.due("feed", x.feed(0x01020304, 0x05060708, 0x090A0B0C, 0x0D000102, 0x03040506), 20);
         Check.due("end", x.end(13), 13);
         Check.due("heap", x.heap(), 0);
-        Check.cards(x, 0, 1, 2, 3, 4, 5, 6, 7, 8, 9, 10, 11, 12, 13);
+        x.lies(0, 1, 2, 3, 4, 5, 6, 7, 8, 9, 10, 11, 12, 13);
         for (int n = 20; n <= 400; n += 20) {
             Check.due("feed to " + n, x.feed(-1, 0, Integer.MIN_VALUE, Integer.MAX_VALUE, 7), n);
         }
@@ -46,7 +46,7 @@ public final class TapeTest {
     }
 
     private static void end() {
-        TopSays x = new TopSays();
+        Counted x = new Counted();
         Check.due("end(0) of nothing", x.end(0), 0);
         Check.due("end(1) of nothing", x.end(1), -1);
         x.feed(0x02010302, 0, 0, 0, 0);
@@ -61,47 +61,47 @@ public final class TapeTest {
         x.feed(0x04050000, 0, 0, 0, 0);
         Check.due("end(4)", x.end(4), 4);
         Check.due("heap of both feeds", x.heap(), 0);
-        Check.cards(x, 0, 2, 1, 4, 5);
+        x.lies(0, 2, 1, 4, 5);
     }
 
     private static void heap() {
-        TopSays x = new TopSays();
-        Check.due("one card", Check.heap(x, 13), 0);
+        Counted x = new Counted();
+        Check.due("one card", x.heap(13), 0);
         Check.due("the tape is empty then", x.count(4), 0);
-        Check.due("a joker", Check.heap(x, 0), 1);
-        Check.due("thirteen cards", Check.heap(x, 0, 1, 2, 3, 4, 5, 6, 7, 8, 9, 10, 11, 13), 2);
-        Check.due("the same twice", Check.heap(x, 2, 2, 2), 3);
-        Check.due("the fifth", Check.heap(x, 1), 4);
-        Check.due("the sixth", Check.heap(x, 5, 4), 5);
+        Check.due("a joker", x.heap(0), 1);
+        Check.due("thirteen cards", x.heap(0, 1, 2, 3, 4, 5, 6, 7, 8, 9, 10, 11, 13), 2);
+        Check.due("the same twice", x.heap(2, 2, 2), 3);
+        Check.due("the fifth", x.heap(1), 4);
+        Check.due("the sixth", x.heap(5, 4), 5);
         Check.due("count(0)", x.count(0), 6);
-        Check.due("the seventh", Check.heap(x, 1), -5);
+        Check.due("the seventh", x.heap(1), -5);
         Check.due("status", x.status(), -5);
         Check.due("the tape is empty then, too", x.count(4), 0);
-        Check.due("no room is ahead of a wrong row", Check.heap(x, 14), -5);
+        Check.due("no room is ahead of a wrong row", x.heap(14), -5);
         Check.due("count(8)", x.count(8), 2);
         Check.due("count(9)", x.count(9), 0);
-        Check.cards(x, 5, 5, 4);
-        Check.cards(x, 3, 2, 2, 2);
+        x.lies(5, 5, 4);
+        x.lies(3, 2, 2, 2);
     }
 
     private static void heapRefused() {
-        TopSays x = new TopSays();
+        Counted x = new Counted();
         Check.due("no bytes", x.heap(), -6);
-        Check.due("fourteen cards", Check.heap(x, 1, 1, 1, 1, 1, 1, 1, 1, 1, 1, 1, 1, 1, 1), -6);
+        Check.due("fourteen cards", x.heap(1, 1, 1, 1, 1, 1, 1, 1, 1, 1, 1, 1, 1, 1), -6);
         Check.due("the tape is empty then", x.count(4), 0);
-        Check.due("a card 14", Check.heap(x, 1, 14), -6);
-        Check.due("a byte 255", Check.heap(x, 255), -6);
-        Check.due("a byte 128", Check.heap(x, 1, 2, 128), -6);
+        Check.due("a card 14", x.heap(1, 14), -6);
+        Check.due("a byte 255", x.heap(255), -6);
+        Check.due("a byte 128", x.heap(1, 2, 128), -6);
         Check.due("status", x.status(), -6);
         Check.due("count(9)", x.count(9), 5);
         Check.due("count(0)", x.count(0), 0);
         Check.due("fault is not of heaps", x.fault(), -1);
-        Check.due("a row behind them", Check.heap(x, 1, 13), 0);
+        Check.due("a row behind them", x.heap(1, 13), 0);
         Check.due("status", x.status(), 0);
     }
 
     private static void of() {
-        TopSays x = Check.with(4, 0, 13, 1);
+        Counted x = Counted.with(4, 0, 13, 1);
         int[] first = {4, 0, 0, 0, 0, 4, 0, 4, 0, 13, 1};
         for (int what = 0; what < first.length; what++) {
             Check.due("of(0, " + what + ")", x.of(0, what), first[what]);
@@ -111,21 +111,21 @@ public final class TapeTest {
         for (int what = 0; what < then.length; what++) {
             Check.due("of(0, " + what + ") behind a step", x.of(0, what), then[what]);
         }
-        Check.heap(x, 5, 1, 1);
+        x.heap(5, 1, 1);
         Check.due("too high a top sticks", x.of(1, 4), 1);
         Check.due("and has not ended", x.of(1, 3), 0);
         Check.due("what it would turn", x.of(1, 5), 5);
-        Check.heap(x, 0, 1);
+        x.heap(0, 1);
         Check.due("a joker turns last", x.of(2, 5), 0);
         Check.due("a joker goes on", x.of(2, 4), 0);
-        TopSays y = Check.under("turns 1000 * 1000; sinks 0 - 1000 * 1000", 3, 1);
+        Counted y = Counted.under("turns 1000 * 1000; sinks 0 - 1000 * 1000", 3, 1);
         Check.due("the nearest of much", y.of(0, 5), 1000);
         Check.due("the nearest of little", y.of(0, 6), -1000);
         Check.due("status is not touched", y.status(), 0);
     }
 
     private static void ofWithout() {
-        TopSays x = Check.with(2, 1);
+        Counted x = Counted.with(2, 1);
         Check.due("the place behind the last", x.of(0, 9), -1001);
         Check.due("what -1", x.of(0, -1), -1001);
         Check.due("what least", x.of(0, Integer.MIN_VALUE), -1001);

@@ -173,48 +173,48 @@ public final class TextTest {
     }
 
     private static void room() {
-        TopSays x = new TopSays();
+        Counted x = new Counted();
         for (int i = 0; i < 6; i++) {
-            Check.due("law " + i, Check.law(x, "turns " + i), i);
+            Check.due("law " + i, x.law("turns " + i), i);
         }
         Check.due("count(2)", x.count(2), 6);
-        Check.due("the seventh", Check.law(x, "ends"), -5);
+        Check.due("the seventh", x.law("ends"), -5);
         Check.due("status", x.status(), -5);
         Check.due("the tape is empty then, too", x.count(4), 0);
-        Check.due("ahead of reading", Check.law(x, "x"), -5);
+        Check.due("ahead of reading", x.law("x"), -5);
         Check.due("fault of the one that was read", x.fault(), -1);
         Check.due("count(8)", x.count(8), 2);
         Check.due("count(9)", x.count(9), 0);
         for (int i = 0; i < 6; i++) {
             x.force(i);
             if (i == 0) {
-                Check.heap(x, 7, 1);
+                x.heap(7, 1);
             }
             Check.due("each law is its own", x.of(0, 5), i);
         }
     }
 
     private static void faultStays() {
-        TopSays x = new TopSays();
-        Check.due("a law that can't be", Check.law(x, "turns x"), -6);
+        Counted x = new Counted();
+        Check.due("a law that can't be", x.law("turns x"), -6);
         Check.due("fault", x.fault(), 6);
         x.heap();
         x.step(0);
         x.force(3);
         Check.due("fault stays", x.fault(), 6);
-        Check.due("a law that can be", Check.law(x, "ends"), 0);
+        Check.due("a law that can be", x.law("ends"), 0);
         Check.due("fault is gone", x.fault(), -1);
-        Check.due("orders that can't be", Check.orders(x, "cut x"), -6);
+        Check.due("orders that can't be", x.orders("cut x"), -6);
         Check.due("fault of orders", x.fault(), 4);
-        Check.due("orders that can be read, but not run", Check.orders(x, "step 0"), -3);
+        Check.due("orders that can be read, but not run", x.orders("step 0"), -3);
         Check.due("fault is gone", x.fault(), -1);
-        Check.due("orders that can't be", Check.orders(x, "cut x"), -6);
+        Check.due("orders that can't be", x.orders("cut x"), -6);
         for (int i = 1; i < 6; i++) {
-            Check.law(x, "ends");
+            x.law("ends");
         }
         Check.due("fault is gone", x.fault(), -1);
-        Check.due("orders that can't be", Check.orders(x, "cut x"), -6);
-        Check.due("no room", Check.law(x, "ends"), -5);
+        Check.due("orders that can't be", x.orders("cut x"), -6);
+        Check.due("no room", x.law("ends"), -5);
         Check.due("no text was read: fault stays", x.fault(), 4);
     }
 }

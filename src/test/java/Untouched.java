@@ -71,6 +71,11 @@ final class Untouched {
         compare(x);
     }
 
+    /** It answers whatever is due, which another test tells: status and counts stay, and all else. */
+    void leavesAll() {
+        answers(call.applyAsInt(scene.get()));
+    }
+
     private static int index(int code) {
         switch (code) {
             case -1: return 0;

@@ -18,7 +18,7 @@ public final class WaysTest {
     }
 
     private static void longest() {
-        TopSays x = new TopSays();
+        Counted x = new Counted();
         int[] steps = {0, 1, 2, 4, 7, 10, 16};
         int[] many = {1, 1, 2, 2, 1, 5, 2};
         int[][] first = {{1}, {2, 1}, {2, 3, 1}, {2, 4, 1, 3}, {3, 1, 4, 5, 2}, {3, 6, 5, 1, 4, 2}, {3, 1, 4, 6, 7, 5, 2}};
@@ -39,13 +39,13 @@ public final class WaysTest {
         Check.due("so long", x.longest(3, 1), 2);
         Check.due("the first", x.longest(3, 2), 2);
         Check.due("the first", x.longest(3, 3), 1);
-        TopSays y = new TopSays();
-        Check.law(y, "ends if last=2;turns last+1");
+        Counted y = new Counted();
+        y.law("ends if last=2;turns last+1");
         y.force(0);
         Check.due("a law that asks last", y.longest(3, 0), 2);
         Check.due("all of them", y.longest(3, 1), 6);
         Check.due("the first", y.longest(3, 2), 1);
-        Check.law(y, "ends if mood=3");
+        y.law("ends if mood=3");
         y.force(1);
         Check.due("a law that asks the mood", y.longest(3, 0), -1);
         y.terms(0, 3);
@@ -55,7 +55,7 @@ public final class WaysTest {
     }
 
     private static void longestWithout() {
-        TopSays x = new TopSays();
+        Counted x = new Counted();
         for (int n : new int[] {0, 8, -1, Integer.MIN_VALUE, Integer.MAX_VALUE}) {
             Check.due("longest of " + n, x.longest(n, 0), -1);
             Check.due("orderly of " + n, x.orderly(n, 0), -1);
@@ -65,7 +65,7 @@ public final class WaysTest {
             Check.due("orderly what " + what, x.orderly(7, what), -1);
         }
         Check.due("orderly what 4", x.orderly(7, 4), -1);
-        Check.law(x, "ends if 1=2");
+        x.law("ends if 1=2");
         x.force(0);
         for (int what = 0; what < 4; what++) {
             Check.due("none ends", x.longest(3, what), -1);
@@ -73,14 +73,14 @@ public final class WaysTest {
         Check.due("not refused", x.count(5), 0);
     }
 
-    private static void isOrderly(TopSays x, int n, int... want) {
+    private static void isOrderly(Counted x, int n, int... want) {
         for (int what = 0; what < 4; what++) {
             Check.due("orderly(" + n + ", " + what + ")", x.orderly(n, what), want[what]);
         }
     }
 
     private static void orderly() {
-        TopSays x = new TopSays();
+        Counted x = new Counted();
         isOrderly(x, 1, 1, 0, 0, 1);
         isOrderly(x, 2, 2, 0, 0, 2);
         isOrderly(x, 3, 6, 0, 0, 5);
@@ -89,20 +89,20 @@ public final class WaysTest {
         isOrderly(x, 3, 4, 0, 2, 3);
         x.terms(1, 2);
         isOrderly(x, 3, 6, 0, 0, 5);
-        Check.law(x, "turns top+1");
+        x.law("turns top+1");
         x.force(0);
         isOrderly(x, 2, 1, 1, 0, 1);
-        Check.law(x, "turns 0;ends if top=2");
+        x.law("turns 0;ends if top=2");
         x.force(1);
         isOrderly(x, 2, 1, 0, 1, 0);
         isOrderly(x, 3, 2, 0, 4, 0);
-        Check.law(x, "turns 0-1 if second=2;turns many if second=1;ends if top=1");
+        x.law("turns 0-1 if second=2;turns many if second=1;ends if top=1");
         x.force(2);
         // 123 132 have ended; 213 becomes 312, that 213: round; 231 312 321: 231 turns 2, is 321, which sticks.
         isOrderly(x, 3, 2, 2, 2, 1);
         x.terms(1, 1);
         isOrderly(x, 3, 2, 2, 2, 1);
-        Check.law(x, "turns last+1;ends if last=3");
+        x.law("turns last+1;ends if last=3");
         x.force(3);
         x.terms(1, 3);
         Check.due("a law that asks last", x.orderly(3, 0), 6);
@@ -110,7 +110,7 @@ public final class WaysTest {
         Check.due("a law that asks last", x.orderly(3, 2), 6);
     }
 
-    private static void row(TopSays x, boolean to, int heap, int i, int... cards) {
+    private static void row(Counted x, boolean to, int heap, int i, int... cards) {
         for (int place = 0; place < cards.length; place++) {
             int got = to ? x.to(heap, i, place) : x.fits(heap, i, place);
             Check.due((to ? "to" : "fits") + " the " + i + "-th, place " + place, got, cards[place]);
@@ -120,7 +120,7 @@ public final class WaysTest {
     }
 
     private static void to() {
-        TopSays x = Check.with(1, 2, 3);
+        Counted x = Counted.with(1, 2, 3);
         Check.due("how many", x.to(0, -1, 0), 2);
         Check.due("the place does not matter then", x.to(0, -1, 99), 2);
         row(x, true, 0, 0, 2, 1, 3);
@@ -131,14 +131,14 @@ public final class WaysTest {
         Check.due("greatest", x.to(0, Integer.MAX_VALUE, 0), -1);
         Check.due("no heap", x.to(1, -1, 0), -1);
         Check.due("no heap", x.to(-1, -1, 0), -1);
-        Check.heap(x, 1, 2, 3, 4, 5, 6, 7);
+        x.heap(1, 2, 3, 4, 5, 6, 7);
         Check.due("seven cards", x.to(1, -1, 0), 6);
         row(x, true, 1, 5, 7, 6, 5, 4, 3, 2, 1);
-        Check.heap(x, 1, 2, 3, 4, 5, 6, 7, 8);
+        x.heap(1, 2, 3, 4, 5, 6, 7, 8);
         Check.due("eight cards", x.to(2, -1, 0), -1);
-        Check.heap(x, 1);
+        x.heap(1);
         Check.due("one card", x.to(3, -1, 0), 0);
-        Check.heap(x, 3, 1, 2);
+        x.heap(3, 1, 2);
         Check.due("none", x.to(4, -1, 0), 0);
         Check.due("none", x.to(4, 0, 0), -1);
         x.terms(1, 1);
@@ -146,13 +146,13 @@ public final class WaysTest {
     }
 
     private static void toAlike() {
-        TopSays x = Check.with(1, 2, 2);
+        Counted x = Counted.with(1, 2, 2);
         Check.due("alike cards", x.to(0, -1, 0), 1);
         row(x, true, 0, 0, 2, 1, 2);
-        Check.heap(x, 2, 2, 1);
+        x.heap(2, 2, 1);
         Check.due("to itself", x.to(1, -1, 0), 1);
         row(x, true, 1, 0, 2, 2, 1);
-        Check.heap(x, 0, 2);
+        x.heap(0, 2);
         Check.due("a joker turns none from last 0", x.to(2, -1, 0), 2);
         row(x, true, 2, 0, 0, 2);
         row(x, true, 2, 1, 2, 0);
@@ -160,20 +160,20 @@ public final class WaysTest {
         x.swap(2, 0, 1);
         x.step(2);
         Check.due("the heap's last does not matter", x.to(2, -1, 0), 2);
-        TopSays y = Check.under("turns 0;sinks 1;ends if top=3", 1, 2, 3);
+        Counted y = Counted.under("turns 0;sinks 1;ends if top=3", 1, 2, 3);
         Check.due("cut to", y.to(0, -1, 0), 0);
         y.cut(0, 1);
         Check.due("cut to", y.to(0, -1, 0), 1);
         row(y, true, 0, 0, 1, 2, 3);
     }
 
-    private static void isOdds(TopSays x, int heap, int seen, int c, int upper, int lower) {
+    private static void isOdds(Counted x, int heap, int seen, int c, int upper, int lower) {
         Check.due("odds(" + heap + ", " + seen + ", " + c + ", 0)", x.odds(heap, seen, c, 0), upper);
         Check.due("odds(" + heap + ", " + seen + ", " + c + ", 1)", x.odds(heap, seen, c, 1), lower);
     }
 
     private static void odds() {
-        TopSays x = Check.with(3, 1, 2);
+        Counted x = Counted.with(3, 1, 2);
         isOdds(x, 0, 0, 0, 1, 3);
         isOdds(x, 0, 0, 1, 1, 3);
         isOdds(x, 0, 0, 2, 1, 3);
@@ -183,12 +183,12 @@ public final class WaysTest {
         isOdds(x, 0, 2, 2, 1, 1);
         isOdds(x, 0, 3, 2, 1, 1);
         isOdds(x, 0, 3, 1, 0, 1);
-        Check.heap(x, 2, 2, 1);
+        x.heap(2, 2, 1);
         isOdds(x, 1, 0, 0, 1, 3);
         isOdds(x, 1, 0, 1, 1, 3);
         isOdds(x, 1, 1, 1, 1, 2);
         isOdds(x, 1, 2, 1, 0, 1);
-        Check.heap(x, 7, 6, 5, 4, 3, 2, 1);
+        x.heap(7, 6, 5, 4, 3, 2, 1);
         isOdds(x, 2, 0, 16, 1, 2520);
         isOdds(x, 2, 0, 0, 1, 7);
         isOdds(x, 2, 7, 1, 1, 1);
@@ -197,19 +197,19 @@ public final class WaysTest {
         x.terms(1, 15);
         isOdds(x, 2, 0, 16, 0, 1);
         isOdds(x, 0, 0, 2, 1, 3);
-        Check.heap(x, 1);
+        x.heap(1);
         isOdds(x, 3, 0, 0, 1, 1);
         isOdds(x, 3, 1, 0, 1, 1);
-        Check.heap(x, 2, 0, 1);
+        x.heap(2, 0, 1);
         x.step(4);
-        Check.cards(x, 4, 0, 2, 1);
+        x.lies(4, 0, 2, 1);
         // From last 0 a joker on top stays for ever.
         isOdds(x, 4, 1, 1, 0, 1);
         isOdds(x, 4, 0, 1, 1, 6);
     }
 
     private static void oddsWithout() {
-        TopSays x = Check.with(3, 1, 2);
+        Counted x = Counted.with(3, 1, 2);
         Check.due("more are seen than there are", x.odds(0, 4, 0, 0), -1);
         Check.due("eight are seen", x.odds(0, 8, 0, 0), -1);
         Check.due("seen -1", x.odds(0, -1, 0, 0), -1);
@@ -220,12 +220,12 @@ public final class WaysTest {
         Check.due("what -1", x.odds(0, 0, 0, -1), -1);
         Check.due("no heap", x.odds(1, 0, 0, 0), -1);
         Check.due("no heap", x.odds(-1, 0, 0, 0), -1);
-        Check.heap(x, 1, 2, 3, 4, 5, 6, 7, 8);
+        x.heap(1, 2, 3, 4, 5, 6, 7, 8);
         Check.due("eight cards", x.odds(1, 7, 0, 0), -1);
     }
 
     private static void sight() {
-        TopSays x = new TopSays();
+        Counted x = new Counted();
         Check.due("least", x.sight(0, 0), 1);
         Check.due("greatest", x.sight(99, 13), 2);
         Check.due("k 100", x.sight(100, 1), -1);
@@ -250,7 +250,7 @@ public final class WaysTest {
     }
 
     private static void fits() {
-        TopSays x = Check.with(3, 1, 2);
+        Counted x = Counted.with(3, 1, 2);
         Check.due("without sights", x.fits(0, -1, 0), 6);
         row(x, false, 0, 0, 1, 2, 3);
         row(x, false, 0, 5, 3, 2, 1);
@@ -275,7 +275,7 @@ public final class WaysTest {
         Check.due("no step behind the end", x.fits(0, -1, 0), 0);
         x.forget();
         x.sight(0, 1);
-        Check.heap(x, 2, 2, 1, 1);
+        x.heap(2, 2, 1, 1);
         Check.due("alike ones", x.fits(1, -1, 0), 3);
         row(x, false, 1, 0, 1, 1, 2, 2);
         row(x, false, 1, 1, 1, 2, 1, 2);
@@ -283,18 +283,18 @@ public final class WaysTest {
     }
 
     private static void fitsBeyond() {
-        TopSays x = Check.with(0, 5);
+        Counted x = Counted.with(0, 5);
         x.sight(99, 0);
         Check.due("a joker for ever", x.fits(0, -1, 0), 1);
         row(x, false, 0, 0, 0, 5);
         x.forget();
         x.sight(2, 1);
-        Check.heap(x, 1, 2, 3);
+        x.heap(1, 2, 3);
         x.terms(1, 1);
         Check.due("beyond what is looked ahead", x.fits(1, -1, 0), 2);
         row(x, false, 1, 0, 2, 3, 1);
         row(x, false, 1, 1, 3, 1, 2);
-        TopSays y = Check.under("turns 0;sinks 1;ends if 1=2", 1, 2, 3, 4, 5, 6, 7);
+        Counted y = Counted.under("turns 0;sinks 1;ends if 1=2", 1, 2, 3, 4, 5, 6, 7);
         y.sight(99, 7);
         y.sight(98, 6);
         Check.due("round and round", y.fits(0, -1, 0), 120);
@@ -303,10 +303,10 @@ public final class WaysTest {
     }
 
     private static void fitsWithout() {
-        TopSays x = Check.with(1, 2, 3, 4, 5, 6, 7);
+        Counted x = Counted.with(1, 2, 3, 4, 5, 6, 7);
         Check.due("seven cards", x.fits(0, -1, 0), 5040);
         row(x, false, 0, 5039, 7, 6, 5, 4, 3, 2, 1);
-        Check.heap(x, 1, 2, 3, 4, 5, 6, 7, 8);
+        x.heap(1, 2, 3, 4, 5, 6, 7, 8);
         Check.due("eight cards", x.fits(1, -1, 0), -1);
         Check.due("no heap", x.fits(2, -1, 0), -1);
         Check.due("no heap", x.fits(-1, -1, 0), -1);
@@ -318,7 +318,7 @@ public final class WaysTest {
 
     /** The same cards with another last are another time. */
     private static void lastOfJokers() {
-        TopSays x = Check.with(2, 0, 1);
+        Counted x = Counted.with(2, 0, 1);
         x.sight(0, 2);
         x.sight(1, 0);
         x.sight(2, 2);
@@ -330,7 +330,7 @@ public final class WaysTest {
         x.sight(9, 0);
         Check.due("a joker turns none from last 0", x.fits(0, -1, 0), 2);
         // 2031 0231(2) 3120 2130 1230, but 0231(0) 3102 0132 0231(3) 0132 comes round.
-        TopSays y = Check.under("sinks 2 if top=0", 2, 0, 3, 1);
+        Counted y = Counted.under("sinks 2 if top=0", 2, 0, 3, 1);
         isOdds(y, 0, 4, 4, 1, 1);
         y.swap(0, 0, 1);
         for (int c = 0; c < 9; c++) {
@@ -339,7 +339,7 @@ public final class WaysTest {
         y.swap(0, 0, 1);
         isOdds(y, 0, 4, 4, 1, 1);
         isOdds(y, 0, 3, 4, 1, 1);
-        TopSays z = Check.under("sinks 2 if top=0", 0, 2, 3, 1);
+        Counted z = Counted.under("sinks 2 if top=0", 0, 2, 3, 1);
         isOdds(z, 0, 4, 3, 0, 1);
         z.swap(0, 0, 1);
         isOdds(z, 0, 4, 4, 1, 1);
@@ -347,9 +347,9 @@ public final class WaysTest {
 
     /** What is remembered of one heap, law, mood must not be taken for another's. */
     private static void oneAfterAnother() {
-        TopSays x = Check.with(3, 1, 2);
-        Check.heap(x, 3, 1, 2);
-        Check.law(x, "ends if heap=1;ends if mood=5;ends if top=1");
+        Counted x = Counted.with(3, 1, 2);
+        x.heap(3, 1, 2);
+        x.law("ends if heap=1;ends if mood=5;ends if top=1");
         isOdds(x, 0, 0, 2, 1, 3);
         x.force(0);
         isOdds(x, 1, 0, 0, 1, 1);
@@ -366,27 +366,27 @@ public final class WaysTest {
         x.image(0);
         x.force(-1);
         x.back(0);
-        Check.law(x, "ends");
+        x.law("ends");
         x.force(1);
         Check.due("longest", x.longest(3, 0), 0);
         Check.due("longest", x.longest(3, 1), 6);
         x.back(0);
-        Check.law(x, "ends if top=2");
+        x.law("ends if top=2");
         x.force(1);
         Check.due("another law of the same number", x.longest(3, 0), 1);
         Check.due("another law of the same number", x.longest(3, 2), 3);
-        TopSays y = new TopSays();
+        Counted y = new Counted();
         y.image(0);
-        Check.heap(y, 1, 2, 3);
+        y.heap(1, 2, 3);
         isOdds(y, 0, 0, 0, 1, 3);
         y.back(0);
-        Check.heap(y, 0, 2, 3);
+        y.heap(0, 2, 3);
         isOdds(y, 0, 0, 0, 0, 1);
         y.back(0);
-        Check.heap(y, 1, 2, 1);
+        y.heap(1, 2, 1);
         isOdds(y, 0, 0, 0, 2, 3);
         y.back(0);
-        Check.heap(y, 1, 2);
+        y.heap(1, 2);
         isOdds(y, 0, 0, 0, 1, 2);
     }
 }
