@@ -54,6 +54,7 @@ public final class EdgesOfPaperTest {
         fitsPlaces();
         fitsWithout();
         raceEnds();
+        raceOfJokers();
         raceAtLong();
         raceWithout();
         sortedAtOnce();
@@ -832,6 +833,17 @@ public final class EdgesOfPaperTest {
         for (int[] row : due) {
             Check.due("race(" + row[0] + ", " + row[1] + ")", x.race(row[0], row[1]), row[2]);
         }
+    }
+
+    private static void raceOfJokers() {
+        Edge.says(26, "Which of two HEAPS ENDS behind fewer STEPS");
+        Counted x = Counted.under("turns 1 if last<2;turns 2 if last=1;ends if last=2;ends if many=1 and last=1", 0, 0);
+        x.heap(0);
+        Check.due("two steps and one", x.race(0, 1), 1);
+        Check.due("one step and two", x.race(1, 0), 0);
+        Check.due("two steps each", x.race(0, 0), 2);
+        x.force(-1);
+        Check.due("for ever", x.race(0, 1), -1);
     }
 
     private static void raceAtLong() {

@@ -13,6 +13,10 @@ public final class SortedTest {
         for (int n = 1; n <= 6; n++) {
             all(n);
         }
+        int most = args.length > 0 ? Integer.parseInt(args[0]) : 6;
+        for (int n = 1; n <= most; n++) {
+            allAlike(n);
+        }
         some();
         Check.finish("SortedTest");
     }
@@ -87,6 +91,25 @@ public final class SortedTest {
         }
     }
 
+    /** Every row of n cards some of which are alike, however many there are of each (seven: some 47,000 rows). */
+    private static void allAlike(int n) {
+        for (int groups = 0; groups < 1 << n - 1; groups++) {
+            int[] cards = new int[n];
+            for (int i = 1; i < n; i++) {
+                cards[i] = cards[i - 1] + (groups >> i - 1 & 1);
+            }
+            Map<String, Integer> away = distances(cards);
+            List<Integer> row = new java.util.ArrayList<>();
+            for (int card : cards) {
+                row.add(card);
+            }
+            for (List<Integer> each : Model.allRows(row)) {
+                int[] lie = each.stream().mapToInt(c -> c).toArray();
+                isFirst(Counted.with(lie), 0, lie, away);
+            }
+        }
+    }
+
     private static void isFirst(Counted x, int heap, int[] cards, Map<String, Integer> away) {
         int left = away.get(Arrays.toString(cards));
         int[] row = cards.clone();
@@ -115,13 +138,18 @@ public final class SortedTest {
         for (int i = 0; i < n; i++) {
             start[i] = i + 1;
         }
+        return distances(start);
+    }
+
+    /** From a row that rises: how many blocks any other row of its cards is away. */
+    private static Map<String, Integer> distances(int[] start) {
         Map<String, Integer> away = new HashMap<>();
         ArrayDeque<int[]> open = new ArrayDeque<>();
         away.put(Arrays.toString(start), 0);
         open.add(start);
         while (!open.isEmpty()) {
             int[] row = open.remove();
-            for (int k = 2; k <= n; k++) {
+            for (int k = 2; k <= start.length; k++) {
                 int[] next = turned(row, k);
                 if (away.putIfAbsent(Arrays.toString(next), away.get(Arrays.toString(row)) + 1) == null) {
                     open.add(next);
